@@ -1270,6 +1270,7 @@ public final class CircuitChecker {
         private int top;
         private final int[] queue = new int[MOST_STATES];
         private int queued;
+        /** Of each STATE, how many of its STEPS must yet be found to lead into the set that grows. */
         private final int[] missing = new int[MOST_STATES];
 
         Claims(Steps steps) {
@@ -1388,29 +1389,30 @@ public final class CircuitChecker {
 
         /** Goal grows by the STATES of way of which one STEP, or all, lead into it, till there are no more. */
         private void until(boolean onAllPaths, int way, int goal) {
+            int needed = onAllPaths ? steps.choices : 1;
+            int never = steps.choices + 1;
             queued = 0;
-            Arrays.fill(missing, onAllPaths ? steps.choices : 1);
             for (int s = 0; s < steps.stateCount; s++) {
+                missing[s] = has(way, s) ? needed : never;
                 if (has(goal, s)) {
+                    missing[s] = 0;
                     enqueue(s);
                 }
             }
             for (int k = 0; k < queued && k < MOST_STATES; k++) {
-                int to = queue[k];
-                for (int i = steps.intoFrom[to]; i < steps.intoFrom[to + 1]; i++) {
-                    leadBack(steps.into[i], way, goal);
-                }
+                put(goal, queue[k]);
+                leadBack(queue[k]);
             }
         }
 
-        private void leadBack(int from, int way, int goal) {
-            if (has(goal, from) || !has(way, from)) {
-                return;
-            }
-            missing[from]--;
-            if (missing[from] == 0) {
-                put(goal, from);
-                enqueue(from);
+        /** A STATE has one STEP a choice, so what misses more than those, or nothing, never comes to 0 here. */
+        private void leadBack(int to) {
+            for (int i = steps.intoFrom[to]; i < steps.intoFrom[to + 1]; i++) {
+                int from = steps.into[i];
+                missing[from]--;
+                if (missing[from] == 0) {
+                    enqueue(from);
+                }
             }
         }
 

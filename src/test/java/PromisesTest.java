@@ -72,6 +72,9 @@ public final class PromisesTest {
         Check.due("feed: end(65516)", x.end(65516), 65516);
         Check.due("feed: just room for 20", x.feed(blanks, blanks, blanks, blanks, blanks), 65536);
         Check.dueThrow("feed: full", STATE, () -> x.feed(0, 0, 0, 0, 0));
+        x.end(65517);
+        Check.dueThrow("feed: room for 19", STATE, () -> x.feed(0, 0, 0, 0, 0));
+        Check.due("feed: what throws changes nothing", x.count(5), 65517);
         Check.due("feed: a full TAPE is read", x.read(), 0);
     }
 
@@ -140,6 +143,7 @@ public final class PromisesTest {
         Check.dueSound("wire a = 1; wire b = a; reg r : 1 = 0; spec s = { b } ; next r = a; input i : 1;");
         Check.dueSound("reg A1:1=0;reg E_:1=0;reg U2:1=0;reg ax:1=0;reg Reg:1=0;reg AXE:1=0;reg nexts:1=0;reg x_9:1=0;");
         Check.dueSound("reg a:1=0;spec s=AG!{a}&&EX AX EF AF EG!!{!a}->A[{a}U{!a}]||E[{1}->{0}U({a})];");
+        Check.dueSound("reg azAZ09_:1=0;wire ZAza_90=azAZ09_;wire z=ZAza_90;wire Z=z;wire Zz=Z;wire zZ=Zz;");
         Check.dueSound("wire a=1?2:3?4:5;wire b=(a?1:2)?a?1:2:3;");
         String[] words = {"reg", "input", "wire", "next", "spec", "A", "E", "U", "AX", "EX", "AF", "EF", "AG", "EG"};
         for (String word : words) {
@@ -447,6 +451,8 @@ public final class PromisesTest {
         dueDeepest("wire w = 1 || 1 && 1 | 1 ^ 1 & 1 == 1 < 1 << 1 + ", "(", "1", ")", 40);
         dueDeepest("wire w = ", "1?", "1", ":1", 40);
         dueDeepest("wire w = 1 ? 1 : ", "~", "1", "", 39);
+        dueDeepest("reg a : 1 = 0; next a = ", "(", "a", ")", 40);
+        dueDeepest("reg a : 1 = 0; next a = ", "~", "a", "", 40);
         dueDeepest("spec s = {", "(", "1", ")", 39, "}");
         dueDeepest("spec s = {", "~", "1", "", 39, "}");
         dueDeepest("spec s = ({", "1?", "1", ":1", 38, "})");

@@ -1,6 +1,5 @@
 import java.util.ArrayList;
 import java.util.List;
-import java.util.NoSuchElementException;
 import java.util.Random;
 
 /** Compares the program with the model on texts that are made by chance (the same ones each time). */
@@ -26,6 +25,7 @@ public final class RandomTest {
 
     public static void main(String[] args) {
         int[] faults = new int[5];
+        byte[] before = {};
         for (int seed = 0; seed < 6000; seed++) {
             RandomTest t = new RandomTest(seed);
             String text = t.text();
@@ -33,12 +33,15 @@ public final class RandomTest {
                 text = t.spoilt(text);
             }
             byte[] bytes = Check.bytes(text);
-            if (bytes.length > 5000) {
-                continue;
-            }
             Model m = new Model(bytes);
             faults[m.fault]++;
-            t.compare("seed " + seed + ": ", m, bytes);
+            CircuitChecker x = new CircuitChecker();
+            if (seed % 4 == 3 && before.length < 2000) {
+                Check.feed(x, before);
+                x.read();
+            }
+            new Comparison("seed " + seed + ": ", m, x, t.random).read(bytes);
+            before = bytes;
         }
         System.out.println("sound texts " + faults[0] + ", with a fault 1 " + faults[1] + ", 2 " + faults[2]
             + ", 3 " + faults[3] + ", 4 " + faults[4]);
@@ -74,12 +77,13 @@ public final class RandomTest {
     private String text() {
         int regBits = 1 + below(8);
         int inputBits = below(4);
-        int lines = 2 + below(14);
+        int lines = 2 + below(below(20) == 0 ? 90 : 14);
+        int largest = below(20) == 0 ? 9 : 4;
         List<String> waiting = new ArrayList<>();
         for (int n = 0; n < lines; n++) {
             int sort = below(10);
             if (n == 0 || sort < 2 && regBits > 0) {
-                int bits = 1 + below(Math.max(1, regBits));
+                int bits = 1 + below(Math.max(1, regBits + (below(60) == 0 ? 2 : 0)));
                 regBits -= bits;
                 String name = newName();
                 add("reg");
@@ -87,13 +91,13 @@ public final class RandomTest {
                 add(":");
                 add("" + bits);
                 add("=");
-                add("" + below(1 << bits));
+                add("" + below((1 << bits) + (below(60) == 0 ? 2 : 0)));
                 add(";");
                 plain.add(name);
                 regs.add(name);
                 waiting.add(name);
             } else if (sort == 2 && inputBits > 0) {
-                int bits = 1 + below(inputBits);
+                int bits = 1 + below(inputBits + (below(40) == 0 ? 2 : 0));
                 inputBits -= bits;
                 String name = newName();
                 add("input");
@@ -107,39 +111,39 @@ public final class RandomTest {
                 add("wire");
                 add(name);
                 add("=");
-                expression(0, below(4));
+                expression(0, below(largest));
                 add(";");
                 plain.add(name);
             } else if (sort < 7 && !waiting.isEmpty()) {
-                next(waiting);
+                next(waiting, largest);
             } else {
                 String name = newName();
                 add("spec");
                 add(name);
                 add("=");
-                formula(0, below(5));
+                formula(0, below(largest + 1));
                 add(";");
                 specs.add(name);
             }
         }
         while (!waiting.isEmpty() && below(4) > 0) {
-            next(waiting);
+            next(waiting, largest);
         }
         return out.toString();
     }
 
-    private void next(List<String> waiting) {
+    private void next(List<String> waiting, int largest) {
         add("next");
         add(waiting.remove(below(waiting.size())));
         add("=");
-        expression(0, below(4));
+        expression(0, below(largest));
         add(";");
     }
 
     private void expression(int depth, int size) {
         int n = below(12);
         if (size <= 0 || depth > 30 || n < 1) {
-            add(below(3) > 0 ? oneOf(plain) : "" + (below(3) == 0 ? below(256) : below(10)));
+            add(below(3) > 0 ? oneOf(plain) : "" + (below(3) == 0 ? below(below(40) == 0 ? 300 : 256) : below(10)));
         } else if (n < 6) {
             expression(depth, size - 1 - below(2));
             String sign = BINARY[below(BINARY.length)];
@@ -216,77 +220,5 @@ public final class RandomTest {
             }
         }
         return s.toString();
-    }
-
-    private void compare(String run, Model m, byte[] bytes) {
-        CircuitChecker x = new CircuitChecker();
-        int calls = Check.feed(x, bytes);
-        Check.due(run + "read()", x.read(), m.fault == 0 ? m.specs.size() : -1);
-        Check.due(run + "fault(0)", x.fault(0), m.fault);
-        Check.due(run + "fault(1)", x.fault(1), m.place);
-        int[] counts = {m.specs.size(), m.names.size(), m.regBits, m.inputBits, m.costs, 0, m.first, 0, -1};
-        for (int what = 0; what < counts.length; what++) {
-            Check.due(run + "count(" + what + ")", x.count(what), counts[what]);
-        }
-        Check.due(run + "reachable()", x.reachable(), m.reachable());
-        for (int s = 0; s < m.specs.size(); s++) {
-            compareSpec(run + "spec " + s + " ", m, x, s);
-        }
-        calls += 16 + 12 * m.specs.size();
-        compareRun(run, m, x, Math.max(10, 490 - calls));
-    }
-
-    private void compareSpec(String run, Model m, CircuitChecker x, int s) {
-        boolean[] so = m.specs.get(s);
-        int size = 0;
-        for (boolean b : so) {
-            size += b ? 1 : 0;
-        }
-        Check.due(run + "holds", x.holds(s), so[m.first]);
-        Check.due(run + "states", x.states(s), size);
-        for (int n = 0; n < 4; n++) {
-            int state = below(m.stateCount());
-            Check.due(run + "at " + state, x.at(s, state), so[state]);
-        }
-        List<Integer> way = m.way(s);
-        int steps = x.count(7);
-        Check.due(run + "trace", x.trace(s), way == null ? -1 : way.size());
-        if (way == null) {
-            Check.due(run + "count(7)", x.count(7), steps);
-            return;
-        }
-        int state = m.first;
-        for (int i = 0; i < way.size(); i++) {
-            Check.due(run + "step " + i + " state", x.step(i, 0), state);
-            Check.due(run + "step " + i + " inputs", x.step(i, 1), way.get(i));
-            state = m.next(state, way.get(i));
-        }
-        Check.due(run + "last state", x.step(way.size(), 0), state);
-        Check.dueThrow(run + "inputs of no step", NoSuchElementException.class, () -> x.step(way.size(), 1));
-        Check.due(run + "count(7)", x.count(7), way.size());
-    }
-
-    private void compareRun(String run, Model m, CircuitChecker x, int calls) {
-        int state = m.first;
-        for (int n = 0; n < calls; n++) {
-            int inputs = below(m.inputCount());
-            int sort = below(8);
-            if (sort == 0) {
-                int to = below(m.stateCount());
-                Check.due(run + "go(" + to + ")", x.go(to), state);
-                state = to;
-            } else if (sort < 3 || m.names.isEmpty()) {
-                state = m.next(state, inputs);
-                Check.due(run + "tick(" + inputs + ")", x.tick(inputs), state);
-            } else {
-                int name = below(m.names.size());
-                int want = m.values(state, inputs)[name];
-                if (m.kinds.get(name).equals("spec")) {
-                    want = m.specs.get(m.widths.get(name))[state] ? 1 : 0;
-                }
-                Check.due(run + "value(" + name + ", " + inputs + ") at " + state, x.value(name, inputs), want);
-            }
-        }
-        Check.due(run + "count(6)", x.count(6), state);
     }
 }

@@ -292,7 +292,7 @@ public final class CircuitChecker {
                 steps.change(about, values);
             } else if (order == TEST) {
                 claims.test(values);
-            } else if (order > TEST || order >= SPEC && order <= EG) {
+            } else if (order > TEST || (order >= SPEC && order <= EG)) {
                 claims.perform(order, about);
             } else {
                 values.perform(order, about);
@@ -361,7 +361,7 @@ public final class CircuitChecker {
 
         void addReg(int width, int firstValue) {
             regBits += width;
-            first = first << width | firstValue;
+            first = (first << width) | firstValue;
             addName(REG, width, regBits);
         }
 
@@ -553,7 +553,7 @@ public final class CircuitChecker {
         }
 
         private static boolean isLetter(int b) {
-            return b >= 'a' && b <= 'z' || b >= 'A' && b <= 'Z';
+            return (b >= 'a' && b <= 'z') || (b >= 'A' && b <= 'Z');
         }
 
         private static boolean isDigit(int b) {
@@ -950,8 +950,8 @@ public final class CircuitChecker {
                 case MORE: return less(b, a);
                 case AT_MOST: return not(less(b, a));
                 case AT_LEAST: return not(less(a, b));
-                case LEFT: return left(a, b);
-                case RIGHT: return right(a, b);
+                case LEFT: return shift(true, a, b);
+                case RIGHT: return shift(false, a, b);
                 case PLUS: return plus(a, b);
                 case MINUS: return minus(a, b);
                 default: return times(a, b);
@@ -969,46 +969,43 @@ public final class CircuitChecker {
             return pick(truth(test), a, b);
         }
 
+        /** 127 more carries into the top bit unless the seven bits below it are 0. */
         private static long truth(long a) {
-            return ((a & ~TOPS) + ~TOPS | a) >>> 7 & ONES;
+            return ((((a & ~TOPS) + ~TOPS) | a) >>> 7) & ONES;
         }
 
         private static long not(long a) {
             return truth(a) ^ ONES;
         }
 
-        /** a where the bit of ones is 1, else b. */
+        /** a where ones has a 1, else b. */
         private static long pick(long ones, long a, long b) {
             long mask = (ones << 8) - ones;
-            return a & mask | b & ~mask;
+            return (a & mask) | (b & ~mask);
         }
 
+        /** The top bits are left out of the sum, so that their carry is lost, and put right behind it. */
         private static long plus(long a, long b) {
-            return (a & ~TOPS) + (b & ~TOPS) ^ (a ^ b) & TOPS;
+            return ((a & ~TOPS) + (b & ~TOPS)) ^ ((a ^ b) & TOPS);
         }
 
+        /** Each top bit is lent to the bits below it, so that none borrows from its neighbour. */
         private static long minus(long a, long b) {
-            return (a | TOPS) - (b & ~TOPS) ^ (a ^ ~b) & TOPS;
+            return ((a | TOPS) - (b & ~TOPS)) ^ ((a ^ ~b) & TOPS);
         }
 
+        /** 1 where a - b would borrow beyond its top bit. */
         private static long less(long a, long b) {
-            return (~a & b | (~a | b) & minus(a, b)) >>> 7 & ONES;
+            return (((~a & b) | ((~a | b) & minus(a, b))) >>> 7) & ONES;
         }
 
-        private static long left(long a, long b) {
+        /** By 1, 2 and 4 where the bits of b say so; of a move by 8 or more nothing stays. */
+        private static long shift(boolean left, long a, long b) {
             long moved = a;
             for (int bit = 0; bit < 3; bit++) {
                 int by = 1 << bit;
-                moved = pick(b >>> bit & ONES, moved << by & all(255 << by & 255), moved);
-            }
-            return pick(truth(b & all(248)), 0, moved);
-        }
-
-        private static long right(long a, long b) {
-            long moved = a;
-            for (int bit = 0; bit < 3; bit++) {
-                int by = 1 << bit;
-                moved = pick(b >>> bit & ONES, moved >>> by & all(255 >>> by), moved);
+                long further = left ? (moved << by) & all((255 << by) & 255) : (moved >>> by) & all(255 >>> by);
+                moved = pick((b >>> bit) & ONES, further, moved);
             }
             return pick(truth(b & all(248)), 0, moved);
         }
@@ -1016,7 +1013,8 @@ public final class CircuitChecker {
         private static long times(long a, long b) {
             long sum = 0;
             for (int bit = 0; bit < 8; bit++) {
-                sum = plus(sum, pick(b >>> bit & ONES, a << bit & all(255 << bit & 255), 0));
+                long part = (a << bit) & all((255 << bit) & 255);
+                sum = plus(sum, pick((b >>> bit) & ONES, part, 0));
             }
             return sum;
         }
@@ -1043,7 +1041,7 @@ public final class CircuitChecker {
         void begin() {
             top = 0;
             int caseBits = circuit.regBits + circuit.inputBits;
-            longs = caseBits > 3 ? 1 << caseBits - 3 : 1;
+            longs = caseBits > 3 ? 1 << (caseBits - 3) : 1;
             for (int name = 0; name < circuit.names; name++) {
                 if (circuit.kind[name] == REG || circuit.kind[name] == INPUT) {
                     fillRow(name);
@@ -1058,7 +1056,7 @@ public final class CircuitChecker {
             for (int i = 0; i < longs; i++) {
                 long eight = 0;
                 for (int lane = 7; lane >= 0; lane--) {
-                    eight = eight << 8 | (i * 8 + lane) >> behind & most;
+                    eight = (eight << 8) | (((i * 8 + lane) >> behind) & most);
                 }
                 cells[row + i] = eight;
             }
@@ -1093,7 +1091,7 @@ public final class CircuitChecker {
         }
 
         private int lane(int row, int aCase) {
-            return (int) (cells[row + (aCase >> 3)] >>> ((aCase & 7) << 3)) & 255;
+            return (int) (cells[row + (aCase >> 3)] >>> ((aCase & 7) * 8)) & 255;
         }
 
         private static int rowOfName(int name) {
@@ -1114,7 +1112,10 @@ public final class CircuitChecker {
         private void pushNumber(int number) {
             if (top < MOST_WAITING) {
                 int row = rowOfPlace(top);
-                Arrays.fill(cells, row, row + longs, Lanes.all(number));
+                long eight = Lanes.all(number);
+                for (int i = 0; i < longs; i++) {
+                    cells[row + i] = eight;
+                }
                 push(row);
             }
         }
@@ -1204,7 +1205,7 @@ public final class CircuitChecker {
             int behind = circuit.bitsBehindReg(reg);
             int most = (1 << circuit.bits[reg]) - 1;
             for (int c = 0; c < cases; c++) {
-                next[c] = next[c] & ~(most << behind) | (values.ofLast(c) & most) << behind;
+                next[c] = (next[c] & ~(most << behind)) | ((values.ofLast(c) & most) << behind);
             }
             values.drop();
         }
@@ -1215,7 +1216,7 @@ public final class CircuitChecker {
         }
 
         int caseOf(int aState, int someInputs) {
-            return aState << circuit.inputBits | someInputs;
+            return (aState << circuit.inputBits) | someInputs;
         }
 
         private void turnBack() {
@@ -1340,7 +1341,7 @@ public final class CircuitChecker {
                 } else if (order == CLAIM_OR) {
                     sets[a + i] |= sets[b + i];
                 } else {
-                    sets[a + i] = sets[EVERY + i] & ~sets[a + i] | sets[b + i];
+                    sets[a + i] = (sets[EVERY + i] & ~sets[a + i]) | sets[b + i];
                 }
             }
         }
@@ -1445,7 +1446,9 @@ public final class CircuitChecker {
         }
 
         private void empty(int set) {
-            Arrays.fill(sets, set, set + LONGS_OF_A_SET, 0);
+            for (int i = 0; i < LONGS_OF_A_SET; i++) {
+                sets[set + i] = 0;
+            }
         }
 
         private void copy(int from, int to) {
@@ -1459,7 +1462,7 @@ public final class CircuitChecker {
         }
 
         private boolean has(int set, int aState) {
-            return (sets[set + (aState >> 6)] >>> (aState & 63) & 1) != 0;
+            return ((sets[set + (aState >> 6)] >>> (aState & 63)) & 1) != 0;
         }
 
         private void put(int set, int aState) {

@@ -12,9 +12,13 @@ public final class LimitsTest {
             + fullestExpression() + ";");
         Comparison.of("as many signs as can wait", "reg a : 5 = 9; reg b : 3 = 2; input i : 2; input j : 1; wire w = "
             + mostWaitingSigns() + ";");
-        Comparison.of("the fullest formula", HEAD + specs() + "spec f = " + fullestFormula() + ";");
+        Comparison.of("many wires, then many signs", "reg a : 5 = 9; reg b : 3 = 2; input i : 2; input j : 1;"
+            + freeWires(50) + "wire w = " + mostWaitingSigns() + ";");
+        for (int seed = 0; seed < 20; seed++) {
+            Comparison.of("fullest formula " + seed, HEAD + specs() + "spec f = " + fullestFormula(seed) + ";");
+        }
         Comparison.of("arrows", HEAD + specs() + "spec f = " + Check.times(20, "s -> t && u || s -> ") + "u;");
-        Comparison.of("many tests", "reg a : 8 = 0; input i : 3; spec s = " + manyTests(300) + "; next a = a + i;");
+        Comparison.of("many tests", "reg a : 8 = 0; input i : 3;" + manyTests());
         Comparison.of("many wires", "reg a : 8 = 0; input i : 3;" + manyWires(58) + "next a = w57;");
         Comparison.of("thirty specs", HEAD + thirtySpecs());
         Comparison.of("all one-bit regs", oneBitRegs());
@@ -58,19 +62,42 @@ public final class LimitsTest {
     }
 
     /** At each of 40 depths three sets wait: before ||, && and U. */
-    private static String fullestFormula() {
+    private static String fullestFormula(int seed) {
+        Random random = new Random(seed);
         StringBuilder f = new StringBuilder();
         for (int n = 0; n < 40; n++) {
-            f.append(n % 9 == 0 ? "few" : "none").append(" || ").append(CLAIMS[n % 3]).append(" && ");
-            f.append(n % 2 == 0 ? "E" : "A").append("[ ").append(CLAIMS[(n + 1) % 3]).append(" U ");
+            f.append(random.nextInt(9) == 0 ? "few" : "none").append(" || ").append(claim(random)).append(" && ");
+            f.append(random.nextBoolean() ? "E" : "A").append("[ ").append(claim(random)).append(" U ");
         }
-        return f.append("none || u && s").append(Check.times(40, "]")).toString();
+        return f.append("few || u && s").append(Check.times(40, "]")).toString();
     }
 
-    private static String manyTests(int number) {
-        StringBuilder s = new StringBuilder("{ 1 }");
+    private static String claim(Random random) {
+        return CLAIMS[random.nextInt(CLAIMS.length)];
+    }
+
+    /** 29 specs with 12 tests each, most of which matter. */
+    private static String manyTests() {
+        StringBuilder s = new StringBuilder();
+        for (int n = 0; n < 5; n++) {
+            s.append("wire w").append(n).append(" = a & ").append(1 << n).append(";");
+        }
+        Random random = new Random(5);
+        for (int n = 0; n < 29; n++) {
+            s.append("spec s").append(n).append(" = { w").append(n % 5).append(" }");
+            for (int k = 1; k < 12; k++) {
+                s.append(k % 2 == 0 ? " || " : " && ").append(random.nextInt(4) == 0 ? "!" : "");
+                s.append("{ w").append(random.nextInt(5)).append(" }");
+            }
+            s.append(";");
+        }
+        return s.toString();
+    }
+
+    private static String freeWires(int number) {
+        StringBuilder s = new StringBuilder();
         for (int n = 0; n < number; n++) {
-            s.append(n % 50 == 49 ? " || { a }" : n % 7 == 0 ? " && { ~a }" : " && { 3 }");
+            s.append("wire v").append(n).append(" = ").append(n % 2 == 0 ? "~a" : "7").append(";");
         }
         return s.toString();
     }

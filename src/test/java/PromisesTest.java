@@ -691,6 +691,8 @@ public final class PromisesTest {
         Check.dueThrow("step(-1, 1)", ELEMENT, () -> x.step(-1, 1));
         Check.dueThrow("step(0, 2)", ARGUMENT, () -> x.step(0, 2));
         Check.dueThrow("step(1, -1)", ARGUMENT, () -> x.step(1, -1));
+        // There is a STATE at 2, so only the what is wrong.
+        Check.dueThrow("step(2, 2)", ARGUMENT, () -> x.step(2, 2));
         Check.dueThrow("step(3, 2)", ELEMENT, () -> x.step(3, 2));
         Check.dueThrow("step(-1, 2)", ELEMENT, () -> x.step(-1, 2));
         Check.dueThrow("step(max, 0)", ELEMENT, () -> x.step(Integer.MAX_VALUE, 0));

@@ -4,10 +4,32 @@ import java.util.function.Supplier;
 
 /** What the tests share: feeding a text, and telling every answer that is not the one that is due. */
 final class Check {
+    private static int sentences;
     private static int checked;
+    private static int checkedBefore;
     private static int wrong;
+    private static String sentence = "";
 
     private Check() {
+    }
+
+    /** The document's words that the next answers are about; a wrong answer is told behind them. */
+    static void sentence(String words) {
+        endSentence();
+        sentences++;
+        checkedBefore = checked;
+        sentence = words;
+    }
+
+    private static void endSentence() {
+        if (sentences > 0 && checked == checkedBefore) {
+            tell("no answer was looked at");
+        }
+    }
+
+    private static void tell(String what) {
+        wrong++;
+        System.out.println(sentence.isEmpty() ? what : "\"" + sentence + "\": " + what);
     }
 
     static byte[] bytes(String text) {
@@ -48,13 +70,19 @@ final class Check {
     static void due(String what, long got, long want) {
         checked++;
         if (got != want) {
-            wrong++;
-            System.out.println(what + " answered " + got + ", due is " + want);
+            tell(what + " answered " + got + ", due is " + want);
         }
     }
 
     static void due(String what, boolean got, boolean want) {
         due(what, got ? 1 : 0, want ? 1 : 0);
+    }
+
+    static void due(String what, String got, String want) {
+        checked++;
+        if (!got.equals(want)) {
+            tell(what + " answered " + got + ", due is " + want);
+        }
     }
 
     static void dueThrow(String what, Class<? extends RuntimeException> want, Supplier<Object> call) {
@@ -68,8 +96,7 @@ final class Check {
             }
             got = "threw " + e;
         }
-        wrong++;
-        System.out.println(what + " " + got + ", due is " + want.getSimpleName());
+        tell(what + " " + got + ", due is " + want.getSimpleName());
     }
 
     /** A text that must be read without a FAULT. */
@@ -104,7 +131,9 @@ final class Check {
     }
 
     static void finish() {
-        System.out.println(checked + " answers looked at, " + wrong + " wrong");
+        endSentence();
+        System.out.println((sentences > 0 ? sentences + " sentences, " : "") + checked + " answers looked at, "
+            + wrong + " wrong");
         if (wrong != 0 || checked == 0) {
             System.exit(1);
         }

@@ -1,31 +1,93 @@
 import java.util.NoSuchElementException;
+import java.util.function.Function;
+import java.util.function.Supplier;
 
-/** The promises one by one: ordinary inputs, edges and wrong inputs. */
+/** The promises 1 to 15, sentence by sentence: ordinary inputs, edges and wrong inputs. */
 public final class PromisesTest {
     private static final Class<IllegalStateException> STATE = IllegalStateException.class;
     private static final Class<IllegalArgumentException> ARGUMENT = IllegalArgumentException.class;
     private static final Class<NoSuchElementException> ELEMENT = NoSuchElementException.class;
+    private static final int MIN = Integer.MIN_VALUE;
+    private static final int MAX = Integer.MAX_VALUE;
+    private static final int BLANKS = 0x20202020;
     /** Counts up while go is 1; a has two bits. */
     private static final String COUNTER = "reg a : 2 = 1; input go : 1; wire up = a + go; next a = up;"
         + "spec three = { a == 3 }; spec can = EF three; spec must = AF three; spec never = { a > 3 };";
 
     public static void main(String[] args) {
         newObject();
+        newCircuit();
+        firstException();
+        throwsChangeNothing();
+        fiveHundredAndTwelveCalls();
         feed();
+        lengthOfFeed();
+        fullTape();
+        noRoom();
         end();
+        endOutOfRange();
         read();
+        readCircuit();
+        readFaulty();
+        inputsAreNotKept();
         fault();
+        placeOfFault();
+        placeOfTheEnd();
+        otherFaults();
         holds();
+        holdsNoSpec();
         states();
+        statesNoSpec();
         at();
+        atNoSpec();
         reachable();
         trace();
+        noWay();
+        leastInputs();
+        traceNoSpec();
         step();
+        inputsOfSteps();
+        noStep();
+        otherSteps();
         tick();
+        tickNoInputs();
         go();
+        goNoState();
         value();
+        valueOfSpecs();
+        valueNoName();
+        valueNoInputs();
         count();
+        otherCounts();
         Check.finish();
+    }
+
+    /** The counter in another STATE than the first, with a TRACE and with a text on the TAPE. */
+    private static CircuitChecker busy() {
+        CircuitChecker x = Check.reader(COUNTER);
+        x.trace(0);
+        x.go(2);
+        Check.feed(x, Check.bytes("reg q : 2 = 3; spec s = { q };"));
+        return x;
+    }
+
+    /** An object whose last text had a FAULT, with a text on the TAPE. */
+    private static CircuitChecker faulty() {
+        CircuitChecker x = Check.reader(COUNTER + "spec");
+        Check.feed(x, Check.bytes("reg q : 2 = 3; spec s = { q };"));
+        return x;
+    }
+
+    private static void dueRefused(String what, Class<? extends RuntimeException> want,
+            Function<CircuitChecker, Object> call) {
+        Refusal.due(what, want, PromisesTest::busy, call);
+    }
+
+    private static void dueRefusedWhenEmpty(String what, Class<? extends RuntimeException> want,
+            Function<CircuitChecker, Object> call) {
+        Supplier<CircuitChecker> made = CircuitChecker::new;
+        Refusal.due("new: " + what, want, made, call);
+        Refusal.due("after a FAULT: " + what, want, PromisesTest::faulty, call);
     }
 
     private static void dueEmptyCircuit(String when, CircuitChecker x) {
@@ -39,699 +101,581 @@ public final class PromisesTest {
         Check.dueThrow(when + "at(0, 0)", ELEMENT, () -> x.at(0, 0));
         Check.dueThrow(when + "trace(0)", ELEMENT, () -> x.trace(0));
         Check.dueThrow(when + "step(0, 0)", ELEMENT, () -> x.step(0, 0));
-        Check.dueThrow(when + "step(0, 2)", ELEMENT, () -> x.step(0, 2));
+        Check.dueThrow(when + "step(0, 1)", ELEMENT, () -> x.step(0, 1));
         Check.dueThrow(when + "value(0, 0)", ELEMENT, () -> x.value(0, 0));
         Check.due(when + "tick(0)", x.tick(0), 0);
         Check.dueThrow(when + "tick(1)", ARGUMENT, () -> x.tick(1));
         Check.due(when + "go(0)", x.go(0), 0);
         Check.dueThrow(when + "go(1)", ARGUMENT, () -> x.go(1));
+        Check.due(when + "count(6)", x.count(6), 0);
     }
 
     private static void newObject() {
+        Check.sentence("CircuitChecker(): An empty TAPE");
         CircuitChecker x = new CircuitChecker();
-        Check.due("new: fault(0)", x.fault(0), 0);
-        Check.due("new: fault(1)", x.fault(1), 0);
-        dueEmptyCircuit("new: ", x);
-        Check.due("new: read()", x.read(), 0);
-        dueEmptyCircuit("new and read: ", x);
+        Check.due("count(5)", x.count(5), 0);
+        Check.dueThrow("end(1)", ARGUMENT, () -> x.end(1));
+        Check.due("end(0)", x.end(0), 0);
+        Check.due("read()", new CircuitChecker().read(), 0);
+    }
+
+    private static void newCircuit() {
+        Check.sentence("a circuit without regs, inputs and specs: it has one STATE.");
+        CircuitChecker y = new CircuitChecker();
+        dueEmptyCircuit("new: ", y);
+        Check.due("fault(0)", y.fault(0), 0);
+        Check.due("fault(1)", y.fault(1), 0);
+        Check.due("read()", y.read(), 0);
+        dueEmptyCircuit("new and read: ", y);
+    }
+
+    private static void firstException() {
+        Check.sentence("(Of two exceptions of a call the one listed first is thrown");
+        CircuitChecker z = busy();
+        Check.dueThrow("step(9, 9)", ELEMENT, () -> z.step(9, 9));
+        Check.dueThrow("step(-1, -1)", ELEMENT, () -> z.step(-1, -1));
+        Check.dueThrow("value(9, 9)", ELEMENT, () -> z.value(9, 9));
+        Check.dueThrow("value(-1, -1)", ELEMENT, () -> z.value(-1, -1));
+        CircuitChecker y = new CircuitChecker();
+        Check.dueThrow("a new object's step(0, 2)", ELEMENT, () -> y.step(0, 2));
+        Check.dueThrow("a new object's value(0, 1)", ELEMENT, () -> y.value(0, 1));
+    }
+
+    private static void throwsChangeNothing() {
+        Check.sentence("what throws changes nothing.)");
+        dueRefused("end(-1)", ARGUMENT, o -> o.end(-1));
+        dueRefused("value(9, 9)", ELEMENT, o -> o.value(9, 9));
+        dueRefused("trace(9)", ELEMENT, o -> o.trace(9));
+        dueRefused("tick(9)", ARGUMENT, o -> o.tick(9));
+        dueRefused("go(9)", ARGUMENT, o -> o.go(9));
+    }
+
+    private static void fiveHundredAndTwelveCalls() {
+        Check.sentence("An object is used for at most 512 calls after it has been made");
+        String text = "reg a : 8 = 0; next a = a + 1;";
+        CircuitChecker x = new CircuitChecker();
+        int calls = Check.feed(x, Check.bytes(text)) + 1;
+        x.read();
+        for (int n = 1; calls < 512; n++) {
+            Check.due("call " + calls, x.tick(0), n & 255);
+            calls++;
+        }
     }
 
     private static void feed() {
-        CircuitChecker x = new CircuitChecker();
-        int blanks = 0x20202020;
-        Check.due("feed: the first", x.feed(0x72656720, 0x613a313d, 0x313b2020, blanks, blanks), 20);
-        Check.due("feed: the second", x.feed(blanks, blanks, blanks, blanks, 0x20202080), 40);
-        Check.due("feed: count(5)", x.count(5), 40);
-        Check.due("feed: read()", x.read(), -1);
-        Check.due("feed: the lowest byte of the last number comes last", x.fault(1), 39);
-        for (int n = 1; n <= 3276; n++) {
-            Check.due("feed: its length", x.feed(blanks, blanks, blanks, blanks, blanks), 20 * n);
+        Check.sentence("The four bytes of each number, the highest first, come to the TAPE");
+        for (int place = 0; place < 20; place++) {
+            for (int b : new int[] {'%', 0, 127, 128, 255}) {
+                int[] words = {BLANKS, BLANKS, BLANKS, BLANKS, BLANKS};
+                int shift = 24 - place % 4 * 8;
+                words[place / 4] = words[place / 4] & ~(255 << shift) | b << shift;
+                CircuitChecker x = new CircuitChecker();
+                x.feed(words[0], words[1], words[2], words[3], words[4]);
+                Check.due("read() with byte " + b + " at " + place, x.read(), -1);
+                Check.due("its place", x.fault(1), place);
+            }
         }
-        Check.dueThrow("feed: no room for 20", STATE, () -> x.feed(0, 0, 0, 0, 0));
-        Check.due("feed: what throws changes nothing", x.count(5), 65520);
-        Check.due("feed: end(65516)", x.end(65516), 65516);
-        Check.due("feed: just room for 20", x.feed(blanks, blanks, blanks, blanks, blanks), 65536);
-        Check.dueThrow("feed: full", STATE, () -> x.feed(0, 0, 0, 0, 0));
-        x.end(65517);
-        Check.dueThrow("feed: room for 19", STATE, () -> x.feed(0, 0, 0, 0, 0));
-        Check.due("feed: what throws changes nothing", x.count(5), 65517);
-        Check.due("feed: a full TAPE is read", x.read(), 0);
+        CircuitChecker x = new CircuitChecker();
+        x.feed(0x72656720, 0x613a313d, 0x303b7370, 0x65632073, 0x3d7b7e61);
+        x.feed(0x7d3b2020, BLANKS, BLANKS, BLANKS, BLANKS);
+        Check.due("read()", x.read(), 1);
+        Check.due("its spec", x.holds(0), true);
+    }
+
+    private static void lengthOfFeed() {
+        Check.sentence("its length.");
+        CircuitChecker y = new CircuitChecker();
+        Check.due("the first", y.feed(0, -1, MIN, MAX, 1), 20);
+        Check.due("the second", y.feed(0, 0, 0, 0, 0), 40);
+        Check.due("count(5)", y.count(5), 40);
+        y.end(7);
+        Check.due("behind 7", y.feed(0, 0, 0, 0, 0), 27);
+        y.read();
+        Check.due("after read", y.feed(0, 0, 0, 0, 0), 20);
+    }
+
+    /** A TAPE takes more calls to fill than the 512 that are promised; it is looked at all the same. */
+    private static CircuitChecker almostFull() {
+        CircuitChecker x = new CircuitChecker();
+        for (int n = 1; n <= 3276; n++) {
+            Check.due("feed", x.feed(BLANKS, BLANKS, BLANKS, BLANKS, BLANKS), 20 * n);
+        }
+        x.end(65516);
+        return x;
+    }
+
+    private static void fullTape() {
+        Check.sentence("THE TAPE: bytes gathered by feed, at most 65,536.");
+        CircuitChecker x = almostFull();
+        Check.due("just room for 20", x.feed(BLANKS, BLANKS, BLANKS, BLANKS, BLANKS - 7), 65536);
+        Check.due("count(5)", x.count(5), 65536);
+        Check.due("end(65536)", x.end(65536), 65536);
+        Check.due("a full TAPE is read to its last byte", x.read(), -1);
+        Check.due("the place of the last byte", x.fault(1), 65535);
+        Check.due("there is room again", x.feed(BLANKS, BLANKS, BLANKS, BLANKS, BLANKS), 20);
+        Check.due("read()", x.read(), 0);
+    }
+
+    private static void noRoom() {
+        Check.sentence("IllegalStateException: there is no room for 20.");
+        CircuitChecker x = almostFull();
+        x.feed(BLANKS, BLANKS, BLANKS, BLANKS, BLANKS);
+        Check.dueThrow("full", STATE, () -> x.feed(0, 0, 0, 0, 0));
+        Check.due("what throws changes nothing", x.count(5), 65536);
+        for (int length : new int[] {65535, 65526, 65518, 65517}) {
+            x.end(length);
+            Check.dueThrow("feed at " + length, STATE, () -> x.feed(0, 0, 0, 0, 0));
+            Check.due("what throws changes nothing", x.count(5), length);
+        }
+        x.end(65516);
+        Check.due("just room for 20 again", x.feed(BLANKS, BLANKS, BLANKS, BLANKS, BLANKS), 65536);
+        Check.due("what was refused is not on the TAPE", x.read(), 0);
     }
 
     private static void end() {
+        Check.sentence("Only the first n bytes of the TAPE stay: n.");
         CircuitChecker x = new CircuitChecker();
-        Check.due("end: of nothing", x.end(0), 0);
-        Check.dueThrow("end: 1 of nothing", ARGUMENT, () -> x.end(1));
-        Check.dueThrow("end: -1", ARGUMENT, () -> x.end(-1));
-        x.feed(0x7265673b, 0, 0, 0, 0);
-        Check.dueThrow("end: 21 of 20", ARGUMENT, () -> x.end(21));
-        Check.dueThrow("end: -1 of 20", ARGUMENT, () -> x.end(-1));
-        Check.dueThrow("end: far below", ARGUMENT, () -> x.end(Integer.MIN_VALUE));
-        Check.due("end: all", x.end(20), 20);
-        Check.due("end: what throws changes nothing", x.count(5), 20);
-        Check.due("end: 3", x.end(3), 3);
-        Check.due("end: count(5)", x.count(5), 3);
-        Check.dueThrow("end: what is gone is gone", ARGUMENT, () -> x.end(4));
-        Check.due("end: feed goes on behind", x.feed(0x20616161, 0x3a313d30, 0x3b202020, 0x20202020, 0x20202020), 23);
-        Check.due("end: read()", x.read(), 0);
-        Check.due("end: one reg", x.count(2), 1);
+        x.feed(0x72656720, 0x613a313d, 0x303b2525, BLANKS, BLANKS);
+        Check.due("all", x.end(20), 20);
+        Check.due("count(5)", x.count(5), 20);
+        Check.due("one less", x.end(19), 19);
+        Check.due("10", x.end(10), 10);
+        Check.due("count(5)", x.count(5), 10);
+        Check.due("feed goes on behind", x.feed(0x72656720, 0x623a313d, 0x313b2020, BLANKS, BLANKS), 30);
+        Check.due("read()", x.read(), 0);
+        Check.due("both regs", x.count(2), 2);
+        Check.due("the STATE", x.count(6), 1);
+        x.feed(-1, -1, -1, -1, -1);
+        Check.due("none", x.end(0), 0);
+        Check.due("count(5)", x.count(5), 0);
+        Check.due("read() of nothing", x.read(), 0);
+        CircuitChecker busy = busy();
+        busy.end(3);
+        Check.due("the circuit stays", busy.count(0) * 100 + busy.count(6) * 10 + busy.count(7), 422);
+    }
+
+    private static void endOutOfRange() {
+        Check.sentence("IllegalArgumentException: n is not 0 .. its length.");
+        CircuitChecker y = new CircuitChecker();
+        Check.due("0 of nothing", y.end(0), 0);
+        for (int n : new int[] {-1, 1, 20, 65536, MIN, MAX}) {
+            dueRefusedWhenEmpty("end(" + n + ")", ARGUMENT, o -> o.end(n < 0 ? n : n + o.count(5)));
+            dueRefused("end(" + n + " too many)", ARGUMENT, o -> o.end(n < 0 ? n : Math.max(n, n + o.count(5))));
+        }
+        y.feed(0, 0, 0, 0, 0);
+        Check.dueThrow("21 of 20", ARGUMENT, () -> y.end(21));
+        y.end(3);
+        Check.dueThrow("what is gone is gone", ARGUMENT, () -> y.end(4));
+        Check.due("3 of 3", y.end(3), 3);
+        y.read();
+        Check.dueThrow("after read", ARGUMENT, () -> y.end(1));
     }
 
     private static void read() {
+        Check.sentence("The TAPE is the TEXT (and empty then)");
         CircuitChecker x = new CircuitChecker();
-        Check.due("read: specs", Check.read(x, COUNTER), 4);
-        Check.due("read: the TAPE is empty", x.count(5), 0);
-        Check.due("read: the FIRST STATE", x.count(6), 1);
-        x.go(3);
-        x.trace(0);
-        Check.due("read: a fault", Check.read(x, COUNTER + "spec"), -1);
-        dueEmptyCircuit("read with a fault: ", x);
-        Check.due("read: again", Check.read(x, COUNTER), 4);
-        x.go(3);
-        x.trace(0);
-        Check.due("read: another", Check.read(x, "reg a : 3 = 5; reg b : 1 = 1; next a = b ? 1 : a;"), 0);
-        Check.due("read: its FIRST STATE", x.count(6), 11);
-        Check.due("read: no TRACE", x.count(7), 0);
-        Check.dueThrow("read: no TRACE", ELEMENT, () -> x.step(0, 0));
-        Check.due("read: its STEP", x.tick(0), 3);
-        Check.due("read: its NAMES", x.count(1), 2);
-        Check.due("read: nothing", x.read(), 0);
+        Check.due("read()", Check.read(x, COUNTER), 4);
+        Check.due("the TAPE is empty", x.count(5), 0);
+        Check.due("of a faulty text", Check.read(x, "reg"), -1);
+        Check.due("the TAPE is empty, too", x.count(5), 0);
+        Check.due("of nothing", x.read(), 0);
+        Check.due("the TAPE is empty, too", x.count(5), 0);
         dueEmptyCircuit("read of nothing: ", x);
-        blanks();
-        grammar();
-        signs();
-        tightness();
     }
 
-    private static void blanks() {
-        Check.dueSound("");
-        Check.dueSound(" \t\r\n");
-        Check.dueSound("# only a remark");
-        Check.dueSound("#\u0000\u00ff@\n#");
-        Check.dueSound("reg#x\na#;\n:\t1\r=\n0;#");
-        Check.dueSound("reg a:1=0;#\nnext a=1;");
-        Check.dueFault("reg a:1=0 # ;", 1, 13);
-        Check.dueFault("reg a:1=0;\u000b", 1, 10);
-        Check.dueFault("reg a:1=0;\u0000", 1, 10);
-        Check.dueFault("reg a:1=0;\f", 1, 10);
-        Check.dueFault("reg a:1=0;\u00a0", 1, 10);
-        Check.dueFault("# remark\r;\n ;", 1, 12);
+    private static void readCircuit() {
+        Check.sentence("the circuit is its own, in the FIRST STATE, INPUTS 0, no TRACE: how many specs.");
+        CircuitChecker x = new CircuitChecker();
+        Check.due("no specs", Check.read(x, "reg a : 1 = 0;"), 0);
+        Check.due("one spec", Check.read(x, "spec a = {1};"), 1);
+        Check.due("four specs", Check.read(x, COUNTER), 4);
+        Check.due("the FIRST STATE", x.count(6), 1);
+        x.go(3);
+        x.trace(0);
+        Check.due("the same again", Check.read(x, COUNTER), 4);
+        Check.due("the FIRST STATE again", x.count(6), 1);
+        Check.due("no STEPS", x.count(7), 0);
+        Check.dueThrow("no TRACE", ELEMENT, () -> x.step(0, 0));
+        x.go(3);
+        x.trace(0);
+        Check.due("another", Check.read(x, "reg a : 3 = 5; reg b : 1 = 1; next a = b ? 1 : a;"), 0);
+        Check.due("its FIRST STATE", x.count(6), 11);
+        Check.dueThrow("no TRACE", ELEMENT, () -> x.step(0, 0));
+        Check.dueThrow("no spec", ELEMENT, () -> x.holds(0));
+        Check.due("its STEP", x.tick(0), 3);
+        Check.due("its NAMES", x.count(1), 2);
+        Check.dueThrow("no INPUTS but 0", ARGUMENT, () -> x.tick(1));
     }
 
-    private static void grammar() {
-        Check.dueSound("reg a:8=255;input b:3;wire c=a+b;next a=c;spec d={c};spec e=d;");
-        Check.dueSound("wire a = 1; wire b = a; reg r : 1 = 0; spec s = { b } ; next r = a; input i : 1;");
-        Check.dueSound("reg A1:1=0;reg E_:1=0;reg U2:1=0;reg ax:1=0;reg Reg:1=0;reg AXE:1=0;reg nexts:1=0;reg x_9:1=0;");
-        Check.dueSound("reg a:1=0;spec s=AG!{a}&&EX AX EF AF EG!!{!a}->A[{a}U{!a}]||E[{1}->{0}U({a})];");
-        Check.dueSound("reg azAZ09_:1=0;wire ZAza_90=azAZ09_;wire z=ZAza_90;wire Z=z;wire Zz=Z;wire zZ=Zz;");
-        Check.dueSound("wire a=1?2:3?4:5;wire b=(a?1:2)?a?1:2:3;");
-        String[] words = {"reg", "input", "wire", "next", "spec", "A", "E", "U", "AX", "EX", "AF", "EF", "AG", "EG"};
-        for (String word : words) {
-            Check.dueFaultAtMark(1, "reg @" + word + " : 1 = 0;");
-            Check.dueFaultAtMark(1, "wire w = @" + word + ";");
-            Check.dueFaultAtMark(1, "reg a : 1 = 0; next @" + word + " = 0;");
-        }
-        Check.dueFaultAtMark(1, "@a");
-        Check.dueFaultAtMark(1, "@;");
-        Check.dueFaultAtMark(1, "@5");
-        Check.dueFaultAtMark(1, "reg a : 1 = 0;@;");
-        Check.dueFaultAtMark(1, "reg a @= 1;");
-        Check.dueFaultAtMark(1, "reg a : @b = 0;");
-        Check.dueFaultAtMark(1, "reg a : 1 @;");
-        Check.dueFaultAtMark(1, "reg a : 1 = @-1;");
-        Check.dueFaultAtMark(1, "reg a : 1 = 0 @:");
-        Check.dueFaultAtMark(1, "input a : 1 @= 0;");
-        Check.dueFaultAtMark(1, "wire a @: 1;");
-        Check.dueFaultAtMark(1, "wire a = @;");
-        Check.dueFaultAtMark(1, "wire a = 1 @2;");
-        Check.dueFaultAtMark(1, "wire a = 1 @-> 2;");
-        Check.dueFaultAtMark(1, "wire a = 1 + @* 2;");
-        Check.dueFaultAtMark(1, "wire a = 1 @~ 2;");
-        Check.dueFaultAtMark(1, "wire a = (1@;");
-        Check.dueFaultAtMark(1, "wire a = 1@);");
-        Check.dueFaultAtMark(1, "wire a = 1 ? 2 @;");
-        Check.dueFaultAtMark(1, "wire a = @{1};");
-        Check.dueFaultAtMark(1, "wire a = 1@");
-        Check.dueFaultAtMark(1, "wire a = 1    # left open@");
-        Check.dueFaultAtMark(1, "spec a = @1;");
-        Check.dueFaultAtMark(1, "spec a = {1@;");
-        Check.dueFaultAtMark(1, "spec a = {@};");
-        Check.dueFaultAtMark(1, "spec a = {1} @& {1};");
-        Check.dueFaultAtMark(1, "spec a = A @{1};");
-        Check.dueFaultAtMark(1, "spec a = A [ {1} @];");
-        Check.dueFaultAtMark(1, "spec a = A [ {1} @V {1} ];");
-        Check.dueFaultAtMark(1, "spec a = E [ {1} U {1} @);");
-        Check.dueFaultAtMark(1, "spec a = AX @;");
-        Check.dueFaultAtMark(1, "spec a = @U;");
-        Check.dueFaultAtMark(1, "spec a = {1} -> @-> {1};");
-        Check.dueFaultAtMark(1, "spec a = @-{1};");
-        Check.dueFaultAtMark(1, "next @1 = 1;");
+    private static void inputsAreNotKept() {
+        Check.sentence("No INPUTS are kept: each call has its own.");
+        CircuitChecker y = Check.reader("reg a : 3 = 0; input i : 2; next a = a + i; wire w = i + 10;");
+        y.tick(3);
+        Check.due("value(1, 0) after tick(3)", y.value(1, 0), 0);
+        Check.due("value(2, 2)", y.value(2, 2), 12);
+        Check.due("value(2, 0)", y.value(2, 0), 10);
+        Check.due("tick(0)", y.tick(0), 3);
     }
 
-    private static void signs() {
-        Check.dueFaultAtMark(1, "wire x = 12@ab;");
-        Check.dueFaultAtMark(1, "wire x = 1 <<@= 2;");
-        Check.dueFaultAtMark(1, "wire x = 1 ==@= 2;");
-        Check.dueFaultAtMark(1, "wire x = 1 <@>= 2;");
-        Check.dueFaultAtMark(1, "wire x = 1 &&@&2;");
-        Check.dueFaultAtMark(1, "wire x = 1 ||@|2;");
-        Check.dueFaultAtMark(1, "wire x = 1@->2;");
-        Check.dueFaultAtMark(1, "wire x = 1-@->2;");
-        Check.dueFaultAtMark(1, "wire x = @_a;");
-        Check.dueFaultAtMark(1, "wire x = 1 @% 2;");
-        Check.dueFaultAtMark(1, "wire x = 1 @/ 2;");
-        Check.dueFaultAtMark(1, "wire x = @\"1\";");
-        Check.dueFaultAtMark(1, "wire x = @\u00e9;");
-        Check.dueSound("wire x = 1 - -1;wire y=1--1;wire z=1<-1;wire v=!!1;wire w=1!=!1;");
-        String name = Check.times(31, "q");
-        Check.dueSound("wire " + name + " = 1; wire y = " + name + ";");
-        Check.dueFaultAtMark(1, "wire @" + name + "1 = 1;");
-        Check.dueFaultAtMark(1, "wire x = @" + name + "_;");
-        Check.dueSound("wire x = 000000255;");
-        Check.dueFaultAtMark(1, "wire x = @0000000255;");
-        Check.dueFaultAtMark(1, "wire x = @1234567890123456789012345678901234567890;");
-        Check.dueFaultAtMark(1, "wire @9 = 1;");
-    }
-
-    private static void dueWire(String expression, int want) {
-        CircuitChecker x = Check.reader("input a : 1; wire w = " + expression + ";");
-        Check.due("fault of " + expression, x.fault(0), 0);
-        Check.due(expression, x.count(1) == 2 ? x.value(1, 0) : -1, want);
-    }
-
-    private static void tightness() {
-        dueWire("1 || 0 && 0", 1);
-        dueWire("2 && 1 | 4", 1);
-        dueWire("0 && 4 | 2", 0);
-        dueWire("4 | 2 && 0", 0);
-        dueWire("1 | 3 ^ 2", 1);
-        dueWire("6 ^ 5 & 3", 7);
-        dueWire("7 & 2 == 2", 1);
-        dueWire("2 == 1 < 2", 0);
-        dueWire("1 < 2 == 1", 1);
-        dueWire("1 < 1 << 1", 1);
-        dueWire("1 << 1 + 1", 4);
-        dueWire("1 + 2 * 3", 7);
-        dueWire("2 * 3 + 1", 7);
-        dueWire("10 - 3 - 2", 5);
-        dueWire("10 - 3 + 2", 9);
-        dueWire("128 >> 1 >> 1", 32);
-        dueWire("1 << 7 >> 7", 1);
-        dueWire("3 > 2 > 1", 0);
-        dueWire("5 == 5 == 1", 1);
-        dueWire("5 != 4 != 1", 0);
-        dueWire("-1 + 2", 1);
-        dueWire("~0 >> 4", 15);
-        dueWire("!2 + 1", 1);
-        dueWire("!(2 + 254)", 1);
-        dueWire("-~!0", 2);
-        dueWire("0 ? 1 : 0 ? 2 : 3", 3);
-        dueWire("1 ? 0 ? 4 : 5 : 6", 5);
-        dueWire("1 || 1 ? 7 : 8", 7);
-        dueWire("2 ? 7 : 8", 7);
-        dueWire("200 + 100", 44);
-        dueWire("3 - 5", 254);
-        dueWire("16 * 17", 16);
-        dueWire("255 * 255", 1);
-        dueWire("-0", 0);
-        dueWire("-128", 128);
-        dueWire("~170", 85);
-        dueWire("!0", 1);
-        dueWire("!255", 0);
-        dueWire("255 << 7", 128);
-        dueWire("255 << 8", 0);
-        dueWire("255 << 9", 0);
-        dueWire("255 << 255", 0);
-        dueWire("255 << 0", 255);
-        dueWire("255 >> 7", 1);
-        dueWire("255 >> 8", 0);
-        dueWire("255 >> 16", 0);
-        dueWire("255 >> 129", 0);
-        dueWire("200 < 100", 0);
-        dueWire("128 > 127", 1);
-        dueWire("255 >= 255", 1);
-        dueWire("0 <= 255", 1);
-        dueWire("4 && 2", 1);
-        dueWire("4 & 2", 0);
-        dueWire("0 || 8", 1);
-        dueWire("0 || 0", 0);
-        for (String sign : new String[] {
-            "||", "&&", "|", "^", "&", "==", "!=", "<", "<=", ">", ">=", "<<", ">>", "+", "-", "*"}) {
-            allOperands(sign);
-        }
-    }
-
-    /** Each sign on all of 256 VALUES with eight others, more than any circuit of one reg needs. */
-    private static void allOperands(String sign) {
-        int[] others = {0, 1, 2, 7, 8, 127, 128, 255};
-        for (int b : others) {
-            CircuitChecker x = Check.reader("reg a : 8 = 0; wire w = a " + sign + " " + b + ";");
-            CircuitChecker y = Check.reader("reg a : 8 = 0; wire w = " + b + " " + sign + " a;");
-            for (int a = 0; a < 256; a++) {
-                x.go(a);
-                y.go(a);
-                Check.due(a + sign + b, x.value(1, 0), Model.apply(sign, a, b));
-                Check.due(b + sign + a, y.value(1, 0), Model.apply(sign, b, a));
-            }
+    private static void readFaulty() {
+        Check.sentence("-1: a FAULT; the circuit is the one without regs, inputs and specs (STATE, COSTS, NAMES 0, no TRACE).");
+        String[] faulty = {
+            COUNTER + "spec", COUNTER + "wire a = 1;", COUNTER + "reg b : 7 = 0;", COUNTER + "wire b = 1*1*1*1*1;", "%",
+            "reg a : 8 = 255; input i : 3; wire w = 1 + 1; next a = w; spec s = {1}; spec s = {1};"};
+        for (String text : faulty) {
+            CircuitChecker x = Check.reader(COUNTER);
+            x.go(3);
+            x.trace(0);
+            Check.due("read()", Check.read(x, text), -1);
+            dueEmptyCircuit("after " + text + ": ", x);
+            Check.due("a sound text again", Check.read(x, COUNTER), 4);
+            Check.due("fault(0)", x.fault(0), 0);
+            Check.due("NAMES", x.count(1), 7);
+            Check.due("COSTS", x.count(4), 8 + 96 + 8 + 32 + 8 + 96);
+            CircuitChecker y = new CircuitChecker();
+            Check.due("read() at first", Check.read(y, text), -1);
+            dueEmptyCircuit("after " + text + " alone: ", y);
         }
     }
 
     private static void fault() {
+        Check.sentence("Of the last read: what 0 the FAULT (0: none)");
         CircuitChecker x = new CircuitChecker();
-        Check.read(x, "reg a : 9 = 0;");
-        Check.due("fault(0)", x.fault(0), 3);
-        Check.due("fault(1)", x.fault(1), 8);
-        Check.due("fault(2)", x.fault(2), -1);
-        Check.due("fault(-1)", x.fault(-1), -1);
-        x.feed(0, 0, 0, 0, 0);
-        Check.due("fault(0) till the next read", x.fault(0), 3);
-        x.end(0);
+        Check.due("no read yet", x.fault(0), 0);
+        String[] texts = {"", "%", "wire a = b;", "reg a : 9 = 0;", Texts.specs(31)};
+        for (int due = 0; due < texts.length; due++) {
+            Check.read(x, texts[due]);
+            Check.due("fault " + due, x.fault(0), due);
+            x.feed(0, 0, 0, 0, 0);
+            x.tick(0);
+            Check.due("till the next read", x.fault(0), due);
+            x.end(0);
+        }
         x.read();
-        Check.due("fault(0) of none", x.fault(0), 0);
-        Check.due("fault(1) of none", x.fault(1), 0);
-        names();
-        numbers();
-        manyNames();
-        manyTokens();
-        depths();
-        costs();
+        Check.due("none again", x.fault(0), 0);
     }
 
-    private static void names() {
-        Check.dueFaultAtMark(2, "wire a = @b;");
-        Check.dueFaultAtMark(2, "wire a = @a;");
-        Check.dueFaultAtMark(2, "wire a = 1; wire b = @a1;");
-        Check.dueFaultAtMark(2, "wire a1 = 1; wire b = @a;");
-        Check.dueFaultAtMark(2, "wire a = 1; wire b = @A1;");
-        Check.dueFaultAtMark(2, "spec a = @a;");
-        Check.dueFaultAtMark(2, "spec a = @b; spec b = {1};");
-        Check.dueFaultAtMark(2, "reg a : 1 = 0; spec b = @a;");
-        Check.dueFaultAtMark(2, "input a : 1; spec b = @a;");
-        Check.dueFaultAtMark(2, "wire a = 1; spec b = AX @a;");
-        Check.dueFaultAtMark(2, "spec a = {1}; spec b = {@a};");
-        Check.dueFaultAtMark(2, "spec a = {1}; wire b = 1 + @a;");
-        Check.dueFaultAtMark(2, "next @a = 1; reg a : 1 = 0;");
-        Check.dueFaultAtMark(2, "wire a = 1; next @a = 1;");
-        Check.dueFaultAtMark(2, "input a : 1; next @a = 1;");
-        Check.dueFaultAtMark(2, "spec a = {1}; next @a = 1;");
-        Check.dueFaultAtMark(2, "reg a : 1 = 0; next a = a; next @a = a;");
-        Check.dueFaultAtMark(2, "reg a : 1 = 0; reg @a : 9 = 0;");
-        Check.dueFaultAtMark(2, "reg a : 1 = 0; input @a : 1;");
-        Check.dueFaultAtMark(2, "wire a = 1; spec @a = {1};");
-        Check.dueFaultAtMark(2, "spec a = {1}; wire @a");
-        Check.dueFaultAtMark(2, "wire a = @b %");
-        Check.dueSound("reg a : 1 = 0; next a = a;");
+    private static void placeOfFault() {
+        Check.sentence("1 its place: the number, from 0, of the first byte of the WORD, NUMBER or sign in the TAPE");
+        Check.dueFaultAtMark(1, "@%");
+        Check.dueFaultAtMark(1, " @%");
+        Check.dueFaultAtMark(1, "reg a : 1 = 0; @word");
+        Check.dueFaultAtMark(1, "reg a : 1 = 0; @12345");
+        Check.dueFaultAtMark(1, "reg a : 1 = 0; @&&");
+        Check.dueFaultAtMark(2, "wire a = 1 +\n  @abcdefg + 1;");
+        Check.dueFaultAtMark(3, "wire a = 1 + # +\n\t@00256;");
+        CircuitChecker y = Check.reader("wire a = b;");
+        y.feed(BLANKS, BLANKS, BLANKS, BLANKS, BLANKS - 7);
+        Check.due("till the next read", y.fault(1), 9);
+        y.read();
+        Check.due("of the next read", y.fault(1), 19);
     }
 
-    private static void numbers() {
-        Check.dueFaultAtMark(3, "reg a : @0 = 0;");
-        Check.dueFaultAtMark(3, "reg a : @9 = 0;");
-        Check.dueFaultAtMark(3, "reg a : @999999999 %");
-        Check.dueFaultAtMark(3, "reg a : 1 = @2;");
-        Check.dueFaultAtMark(3, "reg a : 8 = @256;");
-        Check.dueFaultAtMark(3, "reg a : 3 = @8 %");
-        Check.dueSound("reg a : 3 = 7; reg b : 5 = 31;");
-        Check.dueSound("reg a : 008 = 00255;");
-        Check.dueFaultAtMark(3, "reg a : 3 = 7; reg b : @6 = 31;");
-        Check.dueFaultAtMark(3, "reg a : 8 = 7; reg b : @1 = 0;");
-        Check.dueFaultAtMark(3, "input a : @0;");
-        Check.dueFaultAtMark(3, "input a : @4;");
-        Check.dueSound("input a : 1; input b : 1; input c : 1;");
-        Check.dueSound("input a : 3; reg b : 8 = 0;");
-        Check.dueFaultAtMark(3, "input a : 1; input b : @3;");
-        Check.dueFaultAtMark(3, "input a : 3; input b : @1;");
-        Check.dueFaultAtMark(3, "wire a = @256;");
-        Check.dueFaultAtMark(3, "wire a = 255 + @999999999 %");
-        Check.dueFaultAtMark(3, "spec a = {@1000};");
+    private static void placeOfTheEnd() {
+        Check.sentence("of the end the TAPE's length (0 without a FAULT)");
+        Check.dueFaultAtMark(1, "reg@");
+        Check.dueFaultAtMark(1, "reg a : 1 = 0   \n # ;\n @");
+        Check.dueSound("reg a : 1 = 0;");
+        CircuitChecker y = Check.reader("wire a = b;");
+        Check.read(y, "wire a = 1;");
+        Check.due("after a FAULT", y.fault(1), 0);
     }
 
-    private static String wires(int from, int to) {
-        StringBuilder s = new StringBuilder();
-        for (int n = from; n < to; n++) {
-            s.append("wire w").append(n).append(" = ").append(n == from ? "1" : "w" + (n - 1)).append(";");
+    private static void otherFaults() {
+        Check.sentence("Else -1.");
+        CircuitChecker z = Check.reader("reg a : 9 = 0;");
+        for (int what : new int[] {-1, 2, 3, 256, MIN, MAX}) {
+            Check.due("fault(" + what + ")", z.fault(what), -1);
+            Check.due("fault(" + what + ") of none", new CircuitChecker().fault(what), -1);
         }
-        return s.toString();
-    }
-
-    private static String specs(int number) {
-        StringBuilder s = new StringBuilder();
-        for (int n = 0; n < number; n++) {
-            s.append("spec s").append(n).append(" = {1};");
-        }
-        return s.toString();
-    }
-
-    private static void manyNames() {
-        String sixty = wires(0, 60);
-        CircuitChecker x = Check.reader(sixty);
-        Check.due("60 NAMES", x.count(1), 60);
-        Check.due("the 60th", x.value(59, 0), 1);
-        Check.dueThrow("the 61st", ELEMENT, () -> x.value(60, 0));
-        Check.dueFaultAtMark(4, sixty + "wire @more = 1;");
-        Check.dueFaultAtMark(4, sixty + "reg @more %");
-        Check.dueFaultAtMark(2, sixty + "wire @w7 = 1;");
-        Check.dueFaultAtMark(1, sixty + "wire @AX = 1;");
-        CircuitChecker y = Check.reader(specs(30));
-        Check.due("30 specs", y.count(0), 30);
-        Check.due("the 30th", y.holds(29), true);
-        Check.dueThrow("the 31st", ELEMENT, () -> y.holds(30));
-        Check.dueFaultAtMark(4, specs(30) + "@spec s = {1};");
-        Check.dueFaultAtMark(4, specs(30) + "@spec s0 = {1};");
-        Check.dueFaultAtMark(4, specs(30) + "@spec");
-        Check.dueFaultAtMark(4, specs(30) + wires(0, 30) + "@spec s0");
-        Check.dueFaultAtMark(4, specs(30) + wires(0, 30) + "wire @w30");
-        Check.dueSound(specs(30) + wires(0, 30));
-    }
-
-    private static void manyTokens() {
-        // 7 + 4 + 994 * 2 + 500 * 4 = 3,999 WORDS, NUMBERS and signs, the last line left open
-        String open = "spec s = {1}; spec t = s" + Check.times(994, "&&s") + Check.times(500, "||(s)");
-        String whole = open + ";";
-        Check.dueSound(whole);
-        Check.dueSound(whole + " # ;;\n ");
-        Check.due("a long spec", Check.reader(whole).holds(1), true);
-        Check.dueFaultAtMark(4, whole + "@;");
-        Check.dueFaultAtMark(4, whole + "@reg");
-        Check.dueFaultAtMark(4, whole + "@%");
-        Check.dueFaultAtMark(4, whole + "@" + Check.times(40, "x"));
-        Check.dueFaultAtMark(4, whole + "#;\n @1234567890");
-        Check.dueFaultAtMark(4, open + "||@s;");
-        Check.dueFaultAtMark(4, open + "||@zz;");
-        Check.dueFaultAtMark(1, open + "@");
-        Check.dueFaultAtMark(1, open + "||@");
-        Check.dueFaultAtMark(1, open + "@+;");
-        Check.dueFaultAtMark(1, open + "@% ; ;");
-        Check.dueFaultAtMark(1, "spec s = {1};@" + Check.times(4100, ";"));
-        Check.dueFaultAtMark(1, "@%" + Check.times(4100, ";"));
-    }
-
-    /** What stands directly behind the last nest is the first that may be too deep. */
-    private static void dueDeepest(String before, String nest, String inside, String close, int most) {
-        dueDeepest(before, nest, inside, close, most, "");
-    }
-
-    private static void dueDeepest(String before, String nest, String inside, String close, int most, String behind) {
-        Check.dueSound(before + Check.times(most, nest) + inside + Check.times(most, close) + behind + ";");
-        String over = before + Check.times(most + 1, nest);
-        Check.dueFault(over + inside + Check.times(most + 1, close) + behind + ";", 4, over.length());
-        Check.dueFault(over + ";", 4, over.length());
-        Check.dueFault(over + "%", 4, over.length());
-        Check.dueFault(over + " # \n", 4, over.length() + 4);
-        Check.dueFault(over + " " + Check.times(32, "z"), 4, over.length() + 1);
-        Check.dueFault(over + "999", 4, over.length());
-    }
-
-    private static void depths() {
-        dueDeepest("wire w = ", "(", "1", ")", 40);
-        dueDeepest("wire w = ", "~", "1", "", 40);
-        dueDeepest("wire w = ", "!", "1", "", 40);
-        dueDeepest("wire w = -", "~", "1", "", 39);
-        Check.dueSound("wire w = " + Check.times(20, "~(") + "1" + Check.times(20, ")") + ";");
-        Check.dueFaultAtMark(4, "wire w = " + Check.times(20, "~(") + "~@(1" + Check.times(21, ")") + ";");
-        dueDeepest("wire w = 1 || 1 && 1 | 1 ^ 1 & 1 == 1 < 1 << 1 + ", "(", "1", ")", 40);
-        dueDeepest("wire w = ", "1?", "1", ":1", 40);
-        dueDeepest("wire w = 1 ? 1 : ", "~", "1", "", 39);
-        dueDeepest("reg a : 1 = 0; next a = ", "(", "a", ")", 40);
-        dueDeepest("reg a : 1 = 0; next a = ", "~", "a", "", 40);
-        dueDeepest("spec s = {", "(", "1", ")", 39, "}");
-        dueDeepest("spec s = {", "~", "1", "", 39, "}");
-        dueDeepest("spec s = ({", "1?", "1", ":1", 38, "})");
-        dueDeepest("spec t = {1}; spec s = ", "!", "t", "", 40);
-        for (String word : new String[] {"AX ", "EX ", "AF ", "EF ", "AG ", "EG "}) {
-            dueDeepest("spec t = {1}; spec s = ", word, "t ", "", 40);
-        }
-        dueDeepest("spec t = {1}; spec s = ", "t->", "t", "", 40);
-        dueDeepest("spec t = {1}; spec s = t && t || t -> t -> ", "(", "t", ")", 38);
-        dueDeepest("spec t = {1}; spec s = ", "A[", "t ", "U t]", 40);
-        dueDeepest("spec t = {1}; spec s = ", "E[", "t ", "U t]", 40);
-        dueDeepest("spec t = {1}; spec s = A[ t U ", "!", "t ", "", 39, "]");
-        dueDeepest("spec t = {1}; spec s = E[ t -> t U ", "AX ", "t ", "", 39, "]");
-        Check.dueSound("spec t = {1}; spec s = " + Check.times(40, "A[ t U ") + "t" + Check.times(40, "]") + ";");
-        Check.dueFaultAtMark(4, "spec t = {1}; spec s = " + Check.times(40, "E[ t U ") + "E[ @t U t" + Check.times(41, "]"));
-        Check.dueSound("wire w = " + Check.times(40, "1?1:") + "1;");
-        Check.dueFaultAtMark(4, "wire w = " + Check.times(40, "1?1:") + "1?@1:1;");
-        Check.dueSound("spec s = " + Check.times(39, "(") + "{1}" + Check.times(39, ")") + ";");
-        Check.dueSound("spec s = " + Check.times(39, "!") + "{1};");
-        Check.dueSound("spec t = {1}; spec s = " + Check.times(40, "(") + "t" + Check.times(40, ")") + " -> t;");
-        Check.dueSound("wire w = " + Check.times(40, "(") + "1" + Check.times(40, ")") + " ? 1 : 1;");
-        Check.dueFaultAtMark(4, "wire w = 1 ? 1 : " + Check.times(40, "(") + "@1" + Check.times(40, ")") + ";");
-        Check.dueFaultAtMark(4, "wire w = 1 ? " + Check.times(40, "~") + "@1 : 1;");
-        Check.dueFaultAtMark(4, "spec s = " + Check.times(40, "(") + "{@1}" + Check.times(40, ")") + ";");
-        Check.dueFaultAtMark(4, "spec s = " + Check.times(40, "!") + "{@1};");
-    }
-
-    private static void dueCosts(String text, int want) {
-        CircuitChecker x = Check.reader(text);
-        Check.due("fault of " + text, x.fault(0), 0);
-        Check.due("COSTS of " + text, x.count(4), want);
-    }
-
-    private static void costs() {
-        dueCosts("reg a : 1 = 0; input b : 1; wire c = (~(a)); wire d = 7;", 0);
-        dueCosts("wire a = 1 & 2;", 24);
-        dueCosts("wire a = 1 | 2;", 24);
-        dueCosts("wire a = 1 ^ 2;", 24);
-        dueCosts("wire a = !1;", 24);
-        dueCosts("wire a = 1 && 2;", 24);
-        dueCosts("wire a = 1 || 2;", 24);
-        dueCosts("wire a = 1 == 2;", 32);
-        dueCosts("wire a = 1 != 2;", 32);
-        dueCosts("wire a = 1 < 2;", 96);
-        dueCosts("wire a = 1 <= 2;", 96);
-        dueCosts("wire a = 1 > 2;", 96);
-        dueCosts("wire a = 1 >= 2;", 96);
-        dueCosts("wire a = 1 + 2;", 96);
-        dueCosts("wire a = 1 - 2;", 96);
-        dueCosts("wire a = -2;", 96);
-        dueCosts("wire a = 1 << 2;", 128);
-        dueCosts("wire a = 1 >> 2;", 128);
-        dueCosts("wire a = 1 * 2;", 900);
-        dueCosts("wire a = 1 ? 2 : 3;", 40);
-        dueCosts("reg a : 1 = 0; next a = a;", 8);
-        dueCosts("spec a = {1};", 8);
-        dueCosts("spec a = !({1} && AX {1} || A[{1} U {1}] -> EG {1});", 40);
-        dueCosts("wire w = 1*1*1*1;", 2700);
-        dueCosts("wire w = 1*1*1*1 + 1 + 1; wire v = 1 & 1 | 1 ^ !1; spec s = {1};", 2996);
-        Check.dueFaultAtMark(4, "wire w = 1*1*1*1 + 1 + 1 + 1 @== 1 == 1 & 1;");
-        Check.dueFaultAtMark(4, "wire w = 1*1*1*1 @* 1;");
-        String most = "wire w = 1*1*1*1 + 1 + 1 == 1 & 1 ? 1 : 1; spec s = {1};";
-        dueCosts(most, 2996);
-        Check.dueFaultAtMark(4, most + "spec t = @{1};");
-        Check.dueFaultAtMark(4, most + "spec t = s && @{ % ");
-        Check.dueFaultAtMark(4, "reg r : 1 = 0;" + most + "@next % ");
-        Check.dueFaultAtMark(4, most + "wire v = @!1;");
-        Check.dueFaultAtMark(4, most + "wire v = ~@-1;");
-        Check.dueFaultAtMark(4, most + "wire v = 1 @? ?");
-        Check.dueFaultAtMark(4, most + "wire v = 1 @|| ?");
-        Check.dueFaultAtMark(4, most + "wire v = 1 @* ?");
-        Check.dueFaultAtMark(4, most + "wire v = (1 @<");
-        Check.dueSound(most + "wire v = ((~~(w)));spec t = !s && s -> AX s;");
-        Check.dueFaultAtMark(1, most + "wire v = @< 1;");
-        String exact = "wire w = " + Check.times(124, "1&") + "1; spec s = {1}; spec t = {1}; spec u = {1};";
-        dueCosts(exact, 3000);
-        Check.dueFaultAtMark(4, exact + "spec v = @{1};");
-        String nexts = "reg a:1=0;wire w = " + Check.times(124, "1|") + "1; spec s = {1}; spec t = {1};next a = w;";
-        dueCosts(nexts, 3000);
-        Check.dueFaultAtMark(4, "reg b:1=0;" + nexts + "@next b = 1;");
+        Check.due("fault(0)", z.fault(0), 3);
+        Check.due("fault(1)", z.fault(1), 8);
     }
 
     private static void holds() {
+        Check.sentence("Whether spec s (numbered from 0) is so at the FIRST STATE.");
         CircuitChecker x = Check.reader(COUNTER);
-        Check.due("holds(0)", x.holds(0), false);
-        Check.due("holds(1)", x.holds(1), true);
-        Check.due("holds(2)", x.holds(2), false);
-        Check.due("holds(3)", x.holds(3), false);
-        Check.dueThrow("holds(4)", ELEMENT, () -> x.holds(4));
-        Check.dueThrow("holds(-1)", ELEMENT, () -> x.holds(-1));
-        x.go(3);
-        Check.due("holds(0) is of the FIRST STATE", x.holds(0), false);
+        boolean[] due = {false, true, false, false};
+        for (int state = 0; state < 4; state++) {
+            x.go(state);
+            for (int s = 0; s < due.length; s++) {
+                Check.due("holds(" + s + ") in STATE " + state, x.holds(s), due[s]);
+            }
+        }
+        Check.due("without regs", Check.reader("wire w = 1; spec s = {w};").holds(0), true);
     }
 
-    private static void dueStates(String spec, String want) {
-        // 0 -> 0 or 1; 1 -> 2 or 3; 2 -> 2; 3 -> 0 or 3
-        String text = "reg s : 2 = 0; input i : 1; next s = s == 0 ? i : s == 1 ? 2 + i : s == 2 ? 2 : i ? 3 : 0;";
-        CircuitChecker x = Check.reader(text + "spec one = { s == 1 }; spec f = " + spec + ";");
-        Check.due("fault with " + spec, x.fault(0), 0);
-        int size = 0;
-        for (int s = 0; s < 4; s++) {
-            boolean due = want.indexOf('0' + s) >= 0;
-            size += due ? 1 : 0;
-            Check.due(spec + " at " + s, x.at(1, s), due);
+    private static void holdsNoSpec() {
+        Check.sentence("NoSuchElementException: there is none.");
+        for (int s : new int[] {-1, 4, 5, 30, 64, MIN, MAX}) {
+            dueRefused("holds(" + s + ")", ELEMENT, o -> o.holds(s));
         }
-        Check.due("states of " + spec, x.states(1), size);
-        Check.due("holds of " + spec, x.holds(1), want.indexOf('0') >= 0);
+        for (int s : new int[] {-1, 0, 1}) {
+            dueRefusedWhenEmpty("holds(" + s + ")", ELEMENT, o -> o.holds(s));
+        }
     }
 
     private static void states() {
-        dueStates("{ 1 }", "0123");
-        dueStates("{ 0 }", "");
-        dueStates("{ i }", "");
-        dueStates("{ i || s }", "123");
-        dueStates("{ i + s }", "123");
-        dueStates("{ i + s - 2 }", "03");
-        dueStates("one", "1");
-        dueStates("!one", "023");
-        dueStates("!{ i }", "0123");
-        dueStates("EX one", "0");
-        dueStates("AX one", "");
-        dueStates("AX { s == 2 }", "2");
-        dueStates("EX { s == 2 }", "12");
-        dueStates("AX { s & 2 }", "12");
-        dueStates("EF one", "013");
-        dueStates("AF one", "1");
-        dueStates("AF { s == 0 || s == 2 }", "02");
-        dueStates("AF { s & 2 }", "123");
-        dueStates("AG { s == 2 }", "2");
-        dueStates("AG { s != 2 }", "");
-        dueStates("EG { s != 2 }", "013");
-        dueStates("EG { s == 0 }", "0");
-        dueStates("EG one", "");
-        dueStates("AG EF { s == 2 }", "0123");
-        dueStates("E [ { s == 0 } U one ]", "01");
-        dueStates("A [ { s == 0 } U one ]", "1");
-        dueStates("E [ { s == 3 } U { s == 0 } ]", "03");
-        dueStates("A [ { s == 1 } U { s & 2 } ]", "123");
-        dueStates("E [ { 0 } U one ]", "1");
-        dueStates("E [ { 1 } U { 0 } ]", "");
-        dueStates("A [ { 1 } U { s == 2 } ]", "2");
-        dueStates("one -> { 0 }", "023");
-        dueStates("one -> one", "0123");
-        dueStates("{ s == 3 } -> { 0 } -> { 0 }", "0123");
-        dueStates("({ s == 3 } -> { 0 }) -> { 0 }", "3");
-        dueStates("one || { s == 0 } && { 0 }", "1");
-        dueStates("(one || { s == 0 }) && { s == 0 }", "0");
-        dueStates("!one && { s == 0 }", "0");
-        dueStates("!one || one -> one", "1");
-        dueStates("EX one && one", "");
-        dueStates("AX !one", "123");
-        CircuitChecker x = Check.reader("reg a : 2 = 0; spec s = { a }; reg b : 2 = 2; spec t = AX { b == 0 }; next b = 4;");
-        Check.due("what is declared later counts", x.states(0), 12);
-        Check.due("a next that comes later counts", x.states(1), 16);
-        Check.dueThrow("states(2)", ELEMENT, () -> x.states(2));
-        Check.dueThrow("states(-1)", ELEMENT, () -> x.states(-1));
+        Check.sentence("At how many STATES of all it is so.");
+        CircuitChecker x = Check.reader("reg a : 8 = 7; spec none = {0}; spec all = {1}; spec one = {a == 255};"
+            + "spec most = {a}; spec half = {a & 128}; spec low = {a < 64};");
+        int[] due = {0, 256, 1, 255, 128, 64};
+        for (int s = 0; s < due.length; s++) {
+            Check.due("states(" + s + "), though only one can be come to", x.states(s), due[s]);
+        }
+        Check.due("of one STATE", Check.reader("spec s = {1};").states(0), 1);
+        Check.due("none of one STATE", Check.reader("spec s = {0};").states(0), 0);
+        Check.due("of two STATES", Check.reader("reg a : 1 = 0; spec s = !{0};").states(0), 2);
+    }
+
+    private static void statesNoSpec() {
+        Check.sentence("NoSuchElementException: there is none.");
+        for (int s : new int[] {-1, 4, 5, 30, MIN, MAX}) {
+            dueRefused("states(" + s + ")", ELEMENT, o -> o.states(s));
+        }
+        for (int s : new int[] {-1, 0, 1}) {
+            dueRefusedWhenEmpty("states(" + s + ")", ELEMENT, o -> o.states(s));
+        }
     }
 
     private static void at() {
-        CircuitChecker x = Check.reader(COUNTER);
-        Check.due("at(0, 3)", x.at(0, 3), true);
-        Check.due("at(0, 2)", x.at(0, 2), false);
-        Check.due("at(2, 3)", x.at(2, 3), true);
-        Check.dueThrow("at(0, 4)", ELEMENT, () -> x.at(0, 4));
-        Check.dueThrow("at(0, -1)", ELEMENT, () -> x.at(0, -1));
-        Check.dueThrow("at(4, 0)", ELEMENT, () -> x.at(4, 0));
-        Check.dueThrow("at(-1, 0)", ELEMENT, () -> x.at(-1, 0));
-        CircuitChecker y = Check.reader("reg a : 8 = 0; spec s = { a >= 192 }; next a = a + 1; spec t = AF s;");
-        Check.due("at(0, 255)", y.at(0, 255), true);
-        Check.due("at(0, 191)", y.at(0, 191), false);
-        Check.due("at(1, 0)", y.at(1, 0), true);
-        Check.dueThrow("at(0, 256)", ELEMENT, () -> y.at(0, 256));
+        Check.sentence("Whether it is so at a STATE.");
+        CircuitChecker x = Check.reader("reg a : 8 = 0; spec s = { a >= 192 }; next a = a + 1; spec t = EX s;");
+        for (int state = 0; state < 256; state += 1 + state % 7) {
+            Check.due("at(0, " + state + ")", x.at(0, state), state >= 192);
+            Check.due("at(1, " + state + ")", x.at(1, state), state >= 191 && state < 255);
+        }
+        for (int state : new int[] {63, 64, 127, 128, 190, 191, 192, 254, 255}) {
+            Check.due("at(0, " + state + ")", x.at(0, state), state >= 192);
+            Check.due("at(1, " + state + ")", x.at(1, state), state >= 191 && state < 255);
+        }
         CircuitChecker z = Check.reader("spec s = { 1 };");
         Check.due("at(0, 0) without regs", z.at(0, 0), true);
+    }
+
+    private static void atNoSpec() {
+        Check.sentence("NoSuchElementException: there is no such spec, or STATE.");
+        CircuitChecker x = Check.reader("reg a : 8 = 0; spec s = { a }; spec t = { 1 };");
+        CircuitChecker z = Check.reader("spec s = { 1 };");
         Check.dueThrow("at(0, 1) without regs", ELEMENT, () -> z.at(0, 1));
+        Check.dueThrow("at(0, 256)", ELEMENT, () -> x.at(0, 256));
+        Check.dueThrow("at(2, 255)", ELEMENT, () -> x.at(2, 255));
+        for (int state : new int[] {-1, 4, 64, 256, MIN, MAX}) {
+            dueRefused("at(0, " + state + ")", ELEMENT, o -> o.at(0, state));
+            dueRefused("at(4, " + state + ")", ELEMENT, o -> o.at(4, state));
+            dueRefused("at(" + state + ", 0)", ELEMENT, o -> o.at(state, 0));
+        }
+        dueRefusedWhenEmpty("at(0, 0)", ELEMENT, o -> o.at(0, 0));
+        dueRefusedWhenEmpty("at(0, 1)", ELEMENT, o -> o.at(0, 1));
     }
 
     private static void reachable() {
-        Check.due("reachable: itself", Check.reader("reg a : 8 = 7;").reachable(), 1);
-        Check.due("reachable: all", Check.reader("reg a : 8 = 7; next a = a - 1;").reachable(), 256);
-        Check.due("reachable: even", Check.reader("reg a : 8 = 4; next a = a + 2;").reachable(), 128);
-        Check.due("reachable: by inputs", Check.reader("reg a : 4 = 0; input i : 3; next a = i;").reachable(), 8);
-        CircuitChecker x = Check.reader(COUNTER);
-        x.go(3);
-        Check.due("reachable: from the FIRST STATE", x.reachable(), 4);
-        CircuitChecker y = Check.reader("reg a : 2 = 1; next a = a == 3 ? 3 : a + 1;");
-        Check.due("reachable: not what lies before", y.reachable(), 3);
+        Check.sentence("How many STATES can be come to from the FIRST one (itself, too).");
+        Check.due("no regs", Check.reader("input i : 3;").reachable(), 1);
+        Check.due("itself", Check.reader("reg a : 8 = 7;").reachable(), 1);
+        Check.due("itself and where it stays", Check.reader("reg a : 8 = 7; next a = 9;").reachable(), 2);
+        Check.due("all", Check.reader("reg a : 8 = 7; next a = a - 1;").reachable(), 256);
+        Check.due("even ones", Check.reader("reg a : 8 = 4; next a = a + 2;").reachable(), 128);
+        Check.due("by inputs", Check.reader("reg a : 4 = 0; input i : 3; next a = i;").reachable(), 8);
+        Check.due("by the last INPUTS alone", Check.reader("reg a : 4 = 0; input i : 3; next a = i == 7 ? 9 : a;").reachable(), 2);
+        Check.due("not what lies before", Check.reader("reg a : 2 = 1; next a = a == 3 ? 3 : a + 1;").reachable(), 3);
+        CircuitChecker x = Check.reader("reg a : 2 = 2; next a = a == 3 ? 3 : a + 1;");
+        x.go(0);
+        Check.due("from the FIRST one, wherever it is", x.reachable(), 2);
+        x.tick(0);
+        Check.due("after a STEP", x.reachable(), 2);
     }
 
     private static void trace() {
+        Check.sentence("How many STEPS it takes at least from the FIRST STATE to one at which spec s is so");
         CircuitChecker x = Check.reader(COUNTER);
+        x.go(3);
         Check.due("trace(0)", x.trace(0), 2);
-        Check.due("trace(0): STEPS", x.count(7), 2);
-        Check.due("trace(0): the circuit stays", x.count(6), 1);
-        Check.due("trace(3): no way", x.trace(3), -1);
-        Check.due("trace(3): the TRACE stays", x.count(7), 2);
-        Check.due("trace(3): its last STATE", x.step(2, 0), 3);
-        Check.dueThrow("trace(4)", ELEMENT, () -> x.trace(4));
-        Check.dueThrow("trace(-1)", ELEMENT, () -> x.trace(-1));
+        Check.due("its STEPS", x.count(7), 2);
+        Check.due("the circuit stays where it is", x.count(6), 3);
         Check.due("trace(1): none needed", x.trace(1), 0);
-        Check.due("trace(1): STEPS", x.count(7), 0);
-        Check.due("trace(1): its STATE", x.step(0, 0), 1);
-        Check.due("trace(3): no way", x.trace(3), -1);
-        Check.due("trace(3): the TRACE stays", x.step(0, 0), 1);
+        Check.due("its STEPS", x.count(7), 0);
+        Check.due("its STATE", x.step(0, 0), 1);
+        CircuitChecker y = Check.reader("reg a : 8 = 0; next a = a + 1; spec last = { a == 255 }; spec near = { a == 1 };");
+        Check.due("the longest", y.trace(0), 255);
+        Check.due("its end", y.step(255, 0), 255);
+        Check.due("before its end", y.step(254, 0), 254);
+        Check.dueThrow("no STATE behind its end", ELEMENT, () -> y.step(256, 0));
+        Check.due("the shortest but none", y.trace(1), 1);
+        Check.due("without regs", Check.reader("spec s = {1};").trace(0), 0);
+    }
+
+    private static void noWay() {
+        Check.sentence("-1: there is no way (the TRACE stays as it was).");
+        CircuitChecker x = Check.reader(COUNTER);
+        x.trace(1);
+        Check.due("trace(3)", x.trace(3), -1);
+        Check.due("the TRACE of no STEPS stays", x.step(0, 0), 1);
+        x.trace(0);
+        Check.due("trace(3)", x.trace(3), -1);
+        Check.due("the TRACE of two STEPS stays", x.count(7), 2);
+        Check.due("its last STATE", x.step(2, 0), 3);
+        CircuitChecker none = Check.reader(COUNTER);
+        Check.due("trace(3) at first", none.trace(3), -1);
+        Check.dueThrow("there is still no TRACE", ELEMENT, () -> none.step(0, 0));
+        Check.due("nor are there STEPS", none.count(7), 0);
+        Check.due("a STATE that can't be come to",
+            Check.reader("reg a : 2 = 1; next a = a == 3 ? 3 : a + 1; spec s = {a == 0};").trace(0), -1);
+    }
+
+    private static void traceNoSpec() {
+        Check.sentence("NoSuchElementException: there is no such spec.");
+        for (int s : new int[] {-1, 4, 5, 30, MIN, MAX}) {
+            dueRefused("trace(" + s + ")", ELEMENT, o -> o.trace(s));
+        }
+        for (int s : new int[] {-1, 0, 1}) {
+            dueRefusedWhenEmpty("trace(" + s + ")", ELEMENT, o -> o.trace(s));
+        }
+    }
+
+    private static void leastInputs() {
+        Check.sentence("a shortest way, of several the one whose INPUTS are least at the first STEP at which they differ.");
         // Both 6 (by 1 then 0) and 9 (by 0 then 3) are two STEPS away: the least first INPUTS win.
         CircuitChecker y = Check.reader("reg a : 4 = 0; input i : 2;"
             + "next a = a == 0 ? (i == 0 ? 1 : i == 1 ? 2 : 0) : a == 1 ? (i == 3 ? 9 : 1) : a == 2 ? (i ? 2 : 6) : a;"
             + "spec s = { a == 6 || a == 9 }; spec t = { a == 6 }; spec never = { a == 15 };");
         y.go(6);
-        Check.due("trace: two STEPS", y.trace(0), 2);
-        Check.due("trace: INPUTS", y.step(0, 1) * 10 + y.step(1, 1), 3);
-        Check.due("trace: STATES", y.step(0, 0) * 100 + y.step(1, 0) * 10 + y.step(2, 0), 19);
-        Check.due("trace: the other", y.trace(1), 2);
-        Check.due("trace: INPUTS", y.step(0, 1) * 10 + y.step(1, 1), 10);
-        Check.due("trace: STATES", y.step(0, 0) * 100 + y.step(1, 0) * 10 + y.step(2, 0), 26);
-        CircuitChecker z = Check.reader("reg a : 8 = 0; next a = a + 1; spec last = { a == 255 };");
-        Check.due("trace: the longest", z.trace(0), 255);
-        Check.due("trace: its end", z.step(255, 0), 255);
-        Check.due("trace: before", z.step(254, 0), 254);
+        Check.due("two STEPS", y.trace(0), 2);
+        Check.due("INPUTS", y.step(0, 1) * 10 + y.step(1, 1), 3);
+        Check.due("STATES", y.step(0, 0) * 100 + y.step(1, 0) * 10 + y.step(2, 0), 19);
+        Check.due("the other", y.trace(1), 2);
+        Check.due("INPUTS", y.step(0, 1) * 10 + y.step(1, 1), 10);
+        Check.due("STATES", y.step(0, 0) * 100 + y.step(1, 0) * 10 + y.step(2, 0), 26);
+        // 3 is come to by way of 2 (INPUTS 0 then 2) and of 1 (INPUTS 1 then 0); then on by 1 alone.
+        CircuitChecker z = Check.reader("reg a : 3 = 0; input i : 2; next a = a == 0 ? (i == 0 ? 2 : i == 1 ? 1 : 0)"
+            + ": a == 2 ? (i >= 2 ? 3 : 2) : a == 1 ? 3 : a == 3 ? (i == 1 ? 4 : 3) : a; spec s = { a == 4 };");
+        Check.due("three STEPS", z.trace(0), 3);
+        Check.due("INPUTS", z.step(0, 1) * 100 + z.step(1, 1) * 10 + z.step(2, 1), 21);
+        Check.due("STATES", z.step(1, 0) * 100 + z.step(2, 0) * 10 + z.step(3, 0), 234);
+        CircuitChecker all = Check.reader("reg a : 2 = 0; input i : 3; next a = a + 1; spec s = { a == 3 };");
+        Check.due("any INPUTS", all.trace(0), 3);
+        Check.due("the least of all", all.step(0, 1) + all.step(1, 1) + all.step(2, 1), 0);
+        CircuitChecker last = Check.reader("reg a : 1 = 0; input i : 3; next a = i == 7; spec s = { a };");
+        last.trace(0);
+        Check.due("only the last INPUTS", last.step(0, 1), 7);
     }
 
     private static void step() {
+        Check.sentence("what 0 the STATE before STEP i (from 0; one more than there are STEPS: the last STATE)");
         CircuitChecker x = Check.reader(COUNTER);
-        Check.dueThrow("step without a TRACE", ELEMENT, () -> x.step(0, 0));
-        Check.dueThrow("step without a TRACE, another what", ELEMENT, () -> x.step(0, 2));
         x.trace(0);
-        int[][] due = {{1, 1}, {2, 1}};
-        for (int i = 0; i < 2; i++) {
-            Check.due("step(" + i + ", 0)", x.step(i, 0), due[i][0]);
-            Check.due("step(" + i + ", 1)", x.step(i, 1), due[i][1]);
-        }
+        Check.due("step(0, 0)", x.step(0, 0), 1);
+        Check.due("step(1, 0)", x.step(1, 0), 2);
         Check.due("step(2, 0)", x.step(2, 0), 3);
-        Check.dueThrow("step(2, 1)", ELEMENT, () -> x.step(2, 1));
-        Check.dueThrow("step(3, 0)", ELEMENT, () -> x.step(3, 0));
-        Check.dueThrow("step(-1, 0)", ELEMENT, () -> x.step(-1, 0));
-        Check.dueThrow("step(-1, 1)", ELEMENT, () -> x.step(-1, 1));
-        Check.dueThrow("step(0, 2)", ARGUMENT, () -> x.step(0, 2));
-        Check.dueThrow("step(1, -1)", ARGUMENT, () -> x.step(1, -1));
-        // There is a STATE at 2, so only the what is wrong.
-        Check.dueThrow("step(2, 2)", ARGUMENT, () -> x.step(2, 2));
-        Check.dueThrow("step(3, 2)", ELEMENT, () -> x.step(3, 2));
-        Check.dueThrow("step(-1, 2)", ELEMENT, () -> x.step(-1, 2));
-        Check.dueThrow("step(max, 0)", ELEMENT, () -> x.step(Integer.MAX_VALUE, 0));
+        x.tick(0);
+        x.go(0);
+        Check.due("step(0, 0), wherever the circuit is", x.step(0, 0), 1);
+    }
+
+    private static void inputsOfSteps() {
+        Check.sentence("1 the INPUTS of STEP i.");
+        CircuitChecker y = Check.reader("reg a : 2 = 0; input i : 3; next a = a == 0 ? i == 5 : i == 6 ? 2 : a; spec s = {a == 2};");
+        Check.due("trace(0)", y.trace(0), 2);
+        Check.due("step(0, 1)", y.step(0, 1), 5);
+        Check.due("step(1, 1)", y.step(1, 1), 6);
+    }
+
+    private static void noStep() {
+        Check.sentence("NoSuchElementException, first: there is none.");
+        for (int what : new int[] {0, 1, 2, -1, MIN, MAX}) {
+            for (int i : new int[] {-1, 3, 4, 255, 256, MIN, MAX}) {
+                dueRefused("step(" + i + ", " + what + ")", ELEMENT, o -> o.step(i, what));
+            }
+            dueRefusedWhenEmpty("step(0, " + what + ")", ELEMENT, o -> o.step(0, what));
+            CircuitChecker none = Check.reader(COUNTER);
+            Check.dueThrow("step(0, " + what + ") without a TRACE", ELEMENT, () -> none.step(0, what));
+        }
+        dueRefused("step(2, 1)", ELEMENT, o -> o.step(2, 1));
+        CircuitChecker x = busy();
         x.trace(1);
         Check.dueThrow("step(1, 0) of a shorter TRACE", ELEMENT, () -> x.step(1, 0));
         Check.dueThrow("step(0, 1) of no STEPS", ELEMENT, () -> x.step(0, 1));
     }
 
+    private static void otherSteps() {
+        Check.sentence("IllegalArgumentException: another what.");
+        for (int what : new int[] {2, -1, 3, 256, MIN, MAX}) {
+            dueRefused("step(0, " + what + ")", ARGUMENT, o -> o.step(0, what));
+            dueRefused("step(1, " + what + ")", ARGUMENT, o -> o.step(1, what));
+            // There is a STATE at 2, so only the what is wrong.
+            dueRefused("step(2, " + what + ")", ARGUMENT, o -> o.step(2, what));
+        }
+    }
+
     private static void tick() {
+        Check.sentence("The circuit makes a STEP with INPUTS from the STATE in which it is: its STATE then.");
         CircuitChecker x = Check.reader(COUNTER);
         Check.due("tick(1)", x.tick(1), 2);
+        Check.due("count(6)", x.count(6), 2);
         Check.due("tick(0)", x.tick(0), 2);
         Check.due("tick(1)", x.tick(1), 3);
         Check.due("tick(1): modulo its bits", x.tick(1), 0);
-        Check.dueThrow("tick(2)", ARGUMENT, () -> x.tick(2));
-        Check.dueThrow("tick(-1)", ARGUMENT, () -> x.tick(-1));
-        Check.due("tick: what throws changes nothing", x.count(6), 0);
-        CircuitChecker y = Check.reader("reg a : 3 = 1; reg b : 3 = 6; reg c : 1 = 1; next a = b; next b = a;");
-        Check.due("tick: all at once", y.tick(0), (6 << 3 | 1) << 1 | 1);
+        x.go(2);
+        Check.due("tick(1) from another STATE", x.tick(1), 3);
+        x.trace(0);
+        x.tick(1);
+        Check.due("the TRACE stays", x.count(7), 2);
         CircuitChecker z = Check.reader("input i : 2; reg a : 4 = 0; input j : 1; next a = i + j * 8;");
-        Check.due("tick: the first input is the highest", z.tick(6), 3);
-        Check.due("tick: the last input is the lowest", z.tick(1), 8);
+        Check.due("tick(7)", z.tick(7), 11);
+        Check.due("tick(6)", z.tick(6), 3);
+        Check.due("tick(1)", z.tick(1), 8);
+        Check.due("tick(0)", z.tick(0), 0);
+    }
+
+    private static void tickNoInputs() {
+        Check.sentence("IllegalArgumentException: no such INPUTS.");
+        for (int inputs : new int[] {-1, 2, 3, 8, MIN, MAX}) {
+            dueRefused("tick(" + inputs + ")", ARGUMENT, o -> o.tick(inputs));
+        }
+        for (int inputs : new int[] {-1, 1, 2, MIN, MAX}) {
+            dueRefusedWhenEmpty("tick(" + inputs + ")", ARGUMENT, o -> o.tick(inputs));
+        }
+        CircuitChecker z = Check.reader("input i : 2; reg a : 4 = 0; input j : 1; next a = i + j * 8;");
+        Check.dueThrow("tick(8)", ARGUMENT, () -> z.tick(8));
+        CircuitChecker none = Check.reader("reg a : 8 = 0;");
+        Check.dueThrow("tick(1) without inputs", ARGUMENT, () -> none.tick(1));
+        Check.due("tick(0) without inputs", none.tick(0), 0);
     }
 
     private static void go() {
+        Check.sentence("The circuit is in a STATE: the one in which it was.");
         CircuitChecker x = Check.reader(COUNTER);
         Check.due("go(3)", x.go(3), 1);
+        Check.due("count(6)", x.count(6), 3);
         Check.due("go(0)", x.go(0), 3);
         Check.due("go(0) again", x.go(0), 0);
-        Check.dueThrow("go(4)", ARGUMENT, () -> x.go(4));
-        Check.dueThrow("go(-1)", ARGUMENT, () -> x.go(-1));
-        Check.due("go: what throws changes nothing", x.count(6), 0);
+        x.tick(1);
+        Check.due("go(2) after a STEP", x.go(2), 1);
+        x.trace(0);
+        x.go(1);
+        Check.due("the TRACE stays", x.count(7), 2);
         CircuitChecker y = Check.reader("reg a : 8 = 0;");
         Check.due("go(255)", y.go(255), 0);
+        Check.due("and stay", y.tick(0), 255);
+        Check.due("a STATE that can't be come to", y.go(77), 255);
+    }
+
+    private static void goNoState() {
+        Check.sentence("IllegalArgumentException: there is none.");
+        for (int state : new int[] {-1, 4, 5, 256, MIN, MAX}) {
+            dueRefused("go(" + state + ")", ARGUMENT, o -> o.go(state));
+        }
+        for (int state : new int[] {-1, 1, MIN, MAX}) {
+            dueRefusedWhenEmpty("go(" + state + ")", ARGUMENT, o -> o.go(state));
+        }
+        CircuitChecker y = Check.reader("reg a : 8 = 77;");
         Check.dueThrow("go(256)", ARGUMENT, () -> y.go(256));
-        Check.due("go: and stay", y.tick(0), 255);
+        Check.due("it is where it was", y.count(6), 77);
     }
 
     private static void value() {
+        Check.sentence("What NAME n (of regs, inputs, wires, specs, as they are declared, from 0) is in the STATE in which the"
+            + " circuit is, with these INPUTS");
         CircuitChecker x = Check.reader(COUNTER);
         int[] due = {1, 0, 1, 0, 1, 0, 0};
         int[] dueWithOne = {1, 1, 2, 0, 1, 0, 0};
@@ -742,34 +686,86 @@ public final class PromisesTest {
         }
         x.go(3);
         for (int n = 0; n < due.length; n++) {
-            int name = n;
             Check.due("value(" + n + ", 1) at 3", x.value(n, 1), dueLast[n]);
-            Check.dueThrow("value(" + n + ", 2)", ARGUMENT, () -> x.value(name, 2));
-            Check.dueThrow("value(" + n + ", -1)", ARGUMENT, () -> x.value(name, -1));
         }
-        Check.dueThrow("value(7, 0)", ELEMENT, () -> x.value(7, 0));
-        Check.dueThrow("value(7, 2)", ELEMENT, () -> x.value(7, 2));
-        Check.dueThrow("value(-1, 0)", ELEMENT, () -> x.value(-1, 0));
-        Check.dueThrow("value(-1, -1)", ELEMENT, () -> x.value(-1, -1));
         CircuitChecker y = Check.reader("reg a : 3 = 5; input i : 2; wire v = ~a; reg b : 2 = 2; input j : 1; wire w = v + i;");
-        Check.due("value of the first reg", y.value(0, 5), 5);
-        Check.due("value of the first input", y.value(1, 5), 2);
-        Check.due("value of a wire", y.value(2, 5), 250);
-        Check.due("value of the last reg", y.value(3, 5), 2);
-        Check.due("value of the last input", y.value(4, 5), 1);
-        Check.due("value of a wire of a wire", y.value(5, 5), 252);
+        int[] dueMixed = {5, 2, 250, 2, 1, 252};
+        for (int n = 0; n < dueMixed.length; n++) {
+            Check.due("value(" + n + ", 5)", y.value(n, 5), dueMixed[n]);
+        }
+    }
+
+    private static void valueOfSpecs() {
+        Check.sentence("(of a spec: 1 if it is so; INPUTS matter for inputs and wires alone)");
+        CircuitChecker z = Check.reader("reg a : 1 = 1; input i : 1; spec s = { a }; spec t = { i }; spec u = EX { a }; next a = i;");
+        for (int inputs = 0; inputs < 2; inputs++) {
+            Check.due("the reg with " + inputs, z.value(0, inputs), 1);
+            Check.due("the input with " + inputs, z.value(1, inputs), inputs);
+            Check.due("s with " + inputs, z.value(2, inputs), 1);
+            Check.due("t with " + inputs, z.value(3, inputs), 0);
+            Check.due("u with " + inputs, z.value(4, inputs), 1);
+        }
+        z.tick(0);
+        Check.due("s after a STEP", z.value(2, 1), 0);
+        Check.due("holds is of the FIRST STATE still", z.holds(0), true);
+    }
+
+    private static void valueNoName() {
+        Check.sentence("NoSuchElementException, first: there is none.");
+        for (int n : new int[] {-1, 7, 8, 60, MIN, MAX}) {
+            for (int inputs : new int[] {0, 1, 2, -1, MIN, MAX}) {
+                dueRefused("value(" + n + ", " + inputs + ")", ELEMENT, o -> o.value(n, inputs));
+            }
+        }
+        for (int n : new int[] {-1, 0, 1}) {
+            dueRefusedWhenEmpty("value(" + n + ", 0)", ELEMENT, o -> o.value(n, 0));
+            dueRefusedWhenEmpty("value(" + n + ", 1)", ELEMENT, o -> o.value(n, 1));
+        }
+    }
+
+    private static void valueNoInputs() {
+        Check.sentence("IllegalArgumentException: no such INPUTS.");
+        for (int n = 0; n < 7; n++) {
+            for (int inputs : new int[] {2, -1, 8, MIN, MAX}) {
+                int name = n;
+                dueRefused("value(" + n + ", " + inputs + ")", ARGUMENT, o -> o.value(name, inputs));
+            }
+        }
+        CircuitChecker none = Check.reader("reg a : 8 = 200; wire w = a; spec s = {a};");
+        for (int n = 0; n < 3; n++) {
+            int name = n;
+            Check.due("value(" + n + ", 0) without inputs", none.value(n, 0), n == 2 ? 1 : 200);
+            Check.dueThrow("value(" + n + ", 1) without inputs", ARGUMENT, () -> none.value(name, 1));
+        }
     }
 
     private static void count() {
+        Check.sentence("0 specs; 1 NAMES; 2 bits of the regs; 3 of the inputs; 4 COSTS; 5 the TAPE's length; 6 the STATE in which"
+            + " the circuit is; 7 STEPS of the TRACE.");
         CircuitChecker x = Check.reader(COUNTER);
+        int[] dueFirst = {4, 7, 2, 1, 8 + 96 + 8 + 32 + 8 + 96, 0, 1, 0};
+        for (int what = 0; what < dueFirst.length; what++) {
+            Check.due("count(" + what + ")", x.count(what), dueFirst[what]);
+        }
         x.feed(0, 0, 0, 0, 0);
         x.tick(1);
         x.trace(0);
-        int[] due = {4, 7, 2, 1, 8 + 96 + 8 + 32 + 8 + 96, 20, 2, 2, -1};
+        int[] due = {4, 7, 2, 1, 8 + 96 + 8 + 32 + 8 + 96, 20, 2, 2};
         for (int what = 0; what < due.length; what++) {
-            Check.due("count(" + what + ")", x.count(what), due[what]);
+            Check.due("count(" + what + ") later", x.count(what), due[what]);
         }
-        Check.due("count(-1)", x.count(-1), -1);
-        Check.due("count(max)", x.count(Integer.MAX_VALUE), -1);
+        CircuitChecker full = Check.reader("reg a : 3 = 7; reg b : 5 = 31; input i : 1; input j : 2;");
+        int[] dueFull = {0, 4, 8, 3, 0, 0, 255, 0};
+        for (int what = 0; what < dueFull.length; what++) {
+            Check.due("count(" + what + ") of a full one", full.count(what), dueFull[what]);
+        }
+    }
+
+    private static void otherCounts() {
+        Check.sentence("Else -1.");
+        for (int what : new int[] {-1, 8, 9, 256, MIN, MAX}) {
+            Check.due("count(" + what + ")", busy().count(what), -1);
+            Check.due("count(" + what + ") of a new object", new CircuitChecker().count(what), -1);
+        }
     }
 }

@@ -1,3 +1,6 @@
+import java.util.Arrays;
+import java.util.List;
+
 /** The document's paragraph on FAULTS, sentence by sentence. */
 public final class FaultsTest {
     private static final String[] WORDS_OF_THE_GRAMMAR = {
@@ -59,33 +62,96 @@ public final class FaultsTest {
         Check.dueFaultAtMark(1, "@%" + Check.times(4100, ";"));
     }
 
+    private static final String BINARY = "|| && | ^ & == != < <= > >= << >> + - *";
+    /** Words before a place, and all that may stand there (of what has no other FAULT). */
+    private static final String[][] PLACES = {
+        {"", "reg input wire next spec"},
+        {"wire p = 1; ", "reg input wire next spec"},
+        {"reg ", "unknown"},
+        {"input ", "unknown"},
+        {"wire ", "unknown"},
+        {"spec ", "unknown"},
+        {"reg p ", ":"},
+        {"reg p : ", "1"},
+        {"reg p : 1 ", "="},
+        {"reg p : 1 = ", "0 1"},
+        {"reg p : 1 = 0 ", ";"},
+        {"input p ", ":"},
+        {"input p : ", "1"},
+        {"input p : 1 ", ";"},
+        {"wire p ", "="},
+        {"reg r : 1 = 0; next ", "r"},
+        {"reg r : 1 = 0; next r ", "="},
+        {"spec p ", "="},
+        {"wire p = ", "- ~ ! ( 0 1 255"},
+        {"wire p = 1 + ", "- ~ ! ( 0 1 255"},
+        {"wire p = ~", "- ~ ! ( 0 1 255"},
+        {"wire p = 1 ? ", "- ~ ! ( 0 1 255"},
+        {"wire p = 1 ? 1 : ", "- ~ ! ( 0 1 255"},
+        {"wire p = (", "- ~ ! ( 0 1 255"},
+        {"reg r : 1 = 0; next r = ", "- ~ ! ( 0 1 255"},
+        {"spec p = {", "- ~ ! ( 0 1 255"},
+        {"wire p = 1 ", BINARY + " ? ;"},
+        {"wire p = (1) ", BINARY + " ? ;"},
+        {"wire q = 1; wire p = q ", BINARY + " ? ;"},
+        {"wire p = 1 + 1 ", BINARY + " ? ;"},
+        {"wire p = -1 ", BINARY + " ? ;"},
+        {"wire p = (1 ", BINARY + " ? )"},
+        {"wire p = 1 ? 1 ", BINARY + " ? :"},
+        {"wire p = 1 ? 1 : 1 ", BINARY + " ? ;"},
+        {"reg r : 1 = 0; next r = 1 ", BINARY + " ? ;"},
+        {"spec p = {1 ", BINARY + " ? }"},
+        {"spec p = ", "! AX EX AF EF AG EG A E ( {"},
+        {"spec p = ! ", "! AX EX AF EF AG EG A E ( {"},
+        {"spec p = AG ", "! AX EX AF EF AG EG A E ( {"},
+        {"spec p = (", "! AX EX AF EF AG EG A E ( {"},
+        {"spec p = A [ ", "! AX EX AF EF AG EG A E ( {"},
+        {"spec p = E [ {1} U ", "! AX EX AF EF AG EG A E ( {"},
+        {"spec p = {1} && ", "! AX EX AF EF AG EG A E ( {"},
+        {"spec p = {1} || ", "! AX EX AF EF AG EG A E ( {"},
+        {"spec p = {1} -> ", "! AX EX AF EF AG EG A E ( {"},
+        {"spec p = A ", "["},
+        {"spec p = E ", "["},
+        {"spec p = {1} ", "&& || -> ;"},
+        {"spec q = {1}; spec p = q ", "&& || -> ;"},
+        {"spec p = ({1}) ", "&& || -> ;"},
+        {"spec p = !{1} ", "&& || -> ;"},
+        {"spec p = EX {1} ", "&& || -> ;"},
+        {"spec p = {1} && {1} ", "&& || -> ;"},
+        {"spec p = {1} -> {1} ", "&& || -> ;"},
+        {"spec p = A [ {1} U {1} ] ", "&& || -> ;"},
+        {"spec p = ({1} ", "&& || -> )"},
+        {"spec p = A [ {1} ", "&& || -> U"},
+        {"spec p = E [ {1} U {1} ", "&& || -> ]"}};
+
     private static void outOfPlace() {
         Check.sentence("1 a WORD, NUMBER or sign that can't stand there");
-        for (String what : WHATEVER) {
-            boolean begins = what.equals("reg") || what.equals("input") || what.equals("wire") || what.equals("next")
-                || what.equals("spec");
-            if (!begins) {
-                Check.dueFaultAtMark(1, "@" + what);
-                Check.dueFaultAtMark(1, "wire p = 1; @" + what + " wire q = 1;");
-            }
-            if (!what.equals(":")) {
-                Check.dueFaultAtMark(1, "reg p @" + what + " 1 = 0;");
-                Check.dueFaultAtMark(1, "input p @" + what + " 1;");
-            }
-            if (!what.equals("=")) {
-                Check.dueFaultAtMark(1, "reg p : 1 @" + what + " 0;");
-                Check.dueFaultAtMark(1, "wire p @" + what + " 1;");
-                Check.dueFaultAtMark(1, "spec p @" + what + " {1};");
-                Check.dueFaultAtMark(1, "reg p : 1 = 0; next p @" + what + " 1;");
-            }
-            if (!what.equals(";")) {
-                Check.dueFaultAtMark(1, "reg p : 1 = 0 @" + what);
-                Check.dueFaultAtMark(1, "input p : 1 @" + what);
-            }
-            if (!what.equals("[")) {
-                Check.dueFaultAtMark(1, "spec p = A @" + what + " {1} U {1} ];");
+        for (String[] place : PLACES) {
+            List<String> allowed = Arrays.asList(place[1].split(" "));
+            boolean takesNumber = allowed.contains("1");
+            boolean takesKnownName = allowed.contains("!") || allowed.contains("r");
+            for (String what : WHATEVER) {
+                if (allowed.contains(what)) {
+                    dueMayStand(place[0], what);
+                } else if (takesNumber && isNumber(what)) {
+                    Check.dueFaultAtMark(3, place[0] + "@" + what);
+                } else if (takesKnownName && what.equals("unknown")) {
+                    Check.dueFaultAtMark(2, place[0] + "@" + what);
+                } else {
+                    Check.dueFaultAtMark(1, place[0] + "@" + what);
+                    Check.dueFaultAtMark(1, place[0] + "\t#\n@" + what + " ;");
+                }
             }
         }
+    }
+
+    private static boolean isNumber(String what) {
+        return what.length() < 10 && Character.isDigit(what.charAt(0));
+    }
+
+    /** What may stand there has no FAULT itself: a byte that is none behind it is the first one. */
+    private static void dueMayStand(String before, String what) {
+        Check.dueFaultAtMark(1, before + what + " @%");
     }
 
     private static void theEnd() {

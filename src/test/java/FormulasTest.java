@@ -19,6 +19,8 @@ public final class FormulasTest {
         named();
         laterLines();
         bounds();
+        joinedOnAllStates();
+        fewerStates();
         Check.finish();
     }
 
@@ -215,5 +217,37 @@ public final class FormulasTest {
         }
         Check.due("before at 254", x.at(4, 254), true);
         Check.due("before at 255", x.at(4, 255), false);
+    }
+
+    private static void joinedOnAllStates() {
+        Check.sentence("!, &&, ||, -> as they say");
+        CircuitChecker x = Check.reader("reg a : 8 = 0; spec p = { a & 65 };"
+            + "spec q = { a >= 100 && a < 200 }; spec both = p && q; spec either = p || q; spec so = p -> q; spec not = !p;"
+            + "spec three = p && q || !q;");
+        int[] edges = {0, 1, 62, 63, 64, 65, 99, 100, 126, 127, 128, 129, 190, 191, 192, 193, 199, 200, 254, 255};
+        for (int state : edges) {
+            boolean p = (state & 65) != 0;
+            boolean q = state >= 100 && state < 200;
+            boolean[] due = {p, q, p && q, p || q, !p || q, !p, p && q || !q};
+            for (int s = 0; s < due.length; s++) {
+                Check.due("at(" + s + ", " + state + ")", x.at(s, state), due[s]);
+            }
+        }
+        Check.due("both and either", x.states(2) + x.states(3), x.states(0) + x.states(1));
+        Check.due("of all", x.states(0) + x.states(5), 256);
+    }
+
+    private static void fewerStates() {
+        Check.sentence("At how many STATES of all it is so.");
+        CircuitChecker x = Check.reader("reg a : 8 = 0; spec s = {1}; spec t = {0}; spec u = {a};");
+        Check.due("of 256", x.states(0), 256);
+        Check.due("a text with two STATES", Check.read(x, "reg a : 1 = 0; spec s = {1}; spec t = !{0}; spec u = {0} -> {0};"), 3);
+        for (int s = 0; s < 3; s++) {
+            Check.due("states(" + s + ")", x.states(s), 2);
+        }
+        Check.due("a text with one STATE", Check.read(x, "spec s = {1}; spec t = !{0}; spec u = AG {1};"), 3);
+        for (int s = 0; s < 3; s++) {
+            Check.due("states(" + s + ") of one", x.states(s), 1);
+        }
     }
 }

@@ -519,8 +519,12 @@ public final class PromisesTest {
         Check.due("trace(3) at first", none.trace(3), -1);
         Check.dueThrow("there is still no TRACE", ELEMENT, () -> none.step(0, 0));
         Check.due("nor are there STEPS", none.count(7), 0);
-        Check.due("a STATE that can't be come to",
-            Check.reader("reg a : 2 = 1; next a = a == 3 ? 3 : a + 1; spec s = {a == 0};").trace(0), -1);
+        CircuitChecker before = Check.reader("reg a : 2 = 1; next a = a == 3 ? 3 : a + 1; spec s = {a == 0}; spec t = {a == 3};");
+        Check.due("a STATE that can't be come to", before.trace(0), -1);
+        Check.dueThrow("nor is there a TRACE to it", ELEMENT, () -> before.step(0, 0));
+        Check.due("another one", before.trace(1), 2);
+        Check.due("a STATE that can't be come to", before.trace(0), -1);
+        Check.due("the TRACE to the other one stays", before.count(7) * 10 + before.step(2, 0), 23);
     }
 
     private static void traceNoSpec() {

@@ -535,17 +535,13 @@ public final class CircuitChecker {
             return true;
         }
 
-        /** Whether two WORDS have the same bytes. */
+        /** Whether two WORDS have the same bytes; both were parted from the TAPE, so none lies beyond it. */
         boolean areSame(int a, int b) {
-            if (size[a] != size[b]) {
-                return false;
+            boolean same = size[a] == size[b];
+            for (int i = 0; i < size[a] && same; i++) {
+                same = tape.bytes[from[a] + i] == tape.bytes[from[b] + i];
             }
-            for (int i = 0; i < size[a]; i++) {
-                if (tape.byteAt(from[a] + i) != tape.byteAt(from[b] + i)) {
-                    return false;
-                }
-            }
-            return true;
+            return same;
         }
 
         private static boolean isOfWord(int b) {
@@ -585,34 +581,34 @@ public final class CircuitChecker {
         }
 
         void readTape() {
+            begin();
+            tokens.part();
+            kind = tokens.kind[0];
+            for (int lines = 0; lines <= MOST_TOKENS && found == NO_FAULT && kind != END; lines++) {
+                switch (kind) {
+                    case REG: readReg(); break;
+                    case INPUT: readInput(); break;
+                    case WIRE: readWire(); break;
+                    case NEXT: readNext(); break;
+                    case SPEC: readSpec(); break;
+                    default: refuse();
+                }
+            }
+        }
+
+        private void begin() {
             circuit.clear();
             Arrays.fill(hasNext, 0);
             waitingCount = 0;
             found = NO_FAULT;
             place = 0;
-            tokens.part();
             now = 0;
-            kind = tokens.kind[0];
-            for (int lines = 0; lines <= MOST_TOKENS && found == NO_FAULT && kind != END; lines++) {
-                readLine();
-            }
         }
 
         private void advance() {
             if (kind != HALTED && now + 1 < tokens.length) {
                 now++;
                 kind = tokens.kind[now];
-            }
-        }
-
-        private void readLine() {
-            switch (kind) {
-                case REG: readReg(); break;
-                case INPUT: readInput(); break;
-                case WIRE: readWire(); break;
-                case NEXT: readNext(); break;
-                case SPEC: readSpec(); break;
-                default: refuse();
             }
         }
 

@@ -14,9 +14,12 @@ import java.util.TreeSet;
 /** The public face is the document's and no more, and an object stays small however it is used. */
 public final class FaceTest {
     private static final String[] METHODS = {
-        "int feed(int,int,int,int,int)", "int end(int)", "int read()", "int fault(int)", "boolean holds(int)",
-        "int states(int)", "boolean at(int,int)", "int reachable()", "int trace(int)", "int step(int,int)",
-        "int tick(int)", "int go(int)", "int value(int,int)", "int count(int)"};
+        "int feed(int,int,int,int,int) IllegalStateException", "int end(int) IllegalArgumentException", "int read()",
+        "int fault(int)", "boolean holds(int) NoSuchElementException", "int states(int) NoSuchElementException",
+        "boolean at(int,int) NoSuchElementException", "int reachable()", "int trace(int) NoSuchElementException",
+        "int step(int,int) NoSuchElementException IllegalArgumentException", "int tick(int) IllegalArgumentException",
+        "int go(int) IllegalArgumentException", "int value(int,int) NoSuchElementException IllegalArgumentException",
+        "int count(int)"};
 
     public static void main(String[] args) throws IllegalAccessException {
         methods();
@@ -30,7 +33,11 @@ public final class FaceTest {
         for (Class<?> c : m.getParameterTypes()) {
             s.append(s.charAt(s.length() - 1) == '(' ? "" : ",").append(c.getName());
         }
-        return s.append(')').toString();
+        s.append(')');
+        for (Class<?> c : m.getExceptionTypes()) {
+            s.append(' ').append(c.getSimpleName());
+        }
+        return s.toString();
     }
 
     private static void methods() {
